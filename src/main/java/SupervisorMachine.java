@@ -411,8 +411,11 @@ public final class SupervisorMachine {
 
         static final int DATA_REGISTER = 0;
         static final int ADDRESS_REGISTER = 1;
+        static final int THERE = 2;
         static final int BEHIND = 3;
         static final int BEFORE = 4;
+        static final int FROM_ADDRESS = 5;
+        static final int FROM_ADDRESS_INDEXED = 6;
         static final int SHORT_PLACE = 7;
         static final int LONG_PLACE = 8;
         static final int FROM_PC = 9;
@@ -439,7 +442,7 @@ public final class SupervisorMachine {
 
         static boolean isControl(int operand) {
             int way = of(operand);
-            return way == 2 || way > BEFORE && way < NUMBER;
+            return way == THERE || way > BEFORE && way < NUMBER;
         }
 
         static boolean isOpen(int operand) {
@@ -504,8 +507,8 @@ public final class SupervisorMachine {
                     values[address] -= stride(register, size);
                     at = values[address];
                     break;
-                case 5: at = values[address] + extended(fetch(WORD), WORD); break;
-                case 6: at = values[address] + index(fetch(WORD)); break;
+                case Ways.FROM_ADDRESS: at = values[address] + extended(fetch(WORD), WORD); break;
+                case Ways.FROM_ADDRESS_INDEXED: at = values[address] + index(fetch(WORD)); break;
                 case Ways.SHORT_PLACE: at = extended(fetch(WORD), WORD); break;
                 case Ways.LONG_PLACE: at = fetch(LONG); break;
                 case Ways.FROM_PC: at = place + extended(fetch(WORD), WORD); break;
@@ -967,15 +970,15 @@ public final class SupervisorMachine {
             raised = 0;
             stops = false;
             switch (op) {
-                case MOVE: move(); break;
+                case MOVE: overwrite(arithmetic.tested(readSource(), decoder.size)); break;
                 case ADD: case ADD_CHAIN: case ADD_TENS: case AND: case OR: case EXCLUSIVE:
-                case SUBTRACT: case SUBTRACT_CHAIN: case SUBTRACT_TENS: change(op); break;
-                case COMPARE: compare(); break;
-                case MOVE_ADDRESS: case ADD_ADDRESS: case SUBTRACT_ADDRESS: changeAddress(op); break;
-                case COMPARE_ADDRESS: compareAddress(); break;
-                case MULTIPLY: multiply(); break;
-                case DIVIDE: divide(); break;
-                case CHECK_BOUNDS: checkBounds(); break;
+                case SUBTRACT: case SUBTRACT_CHAIN: case SUBTRACT_TENS: change(op, readSource()); break;
+                case COMPARE: compare(readSource()); break;
+                case MOVE_ADDRESS: case ADD_ADDRESS: case SUBTRACT_ADDRESS: changeAddress(op, readSource()); break;
+                case COMPARE_ADDRESS: compareAddress(readSource()); break;
+                case MULTIPLY: multiply(readSource()); break;
+                case DIVIDE: divide(readSource()); break;
+                case CHECK_BOUNDS: checkBounds(extended(readSource(), WORD)); break;
                 case ADD_QUICK: changeQuick(Op.ADD, quickNumber()); break;
                 case SUBTRACT_QUICK: changeQuick(Op.SUBTRACT, quickNumber()); break;
                 case BITS_BY_REGISTER: changeBit(values[decoder.upperRegister()]); break;
@@ -1048,55 +1051,37 @@ public final class SupervisorMachine {
             operand.write(decoder.size, value);
         }
 
-        private void move() {
-            operand.find(decoder.source, decoder.size);
-            int value = operand.read(decoder.size);
-            operand.find(decoder.target, decoder.size);
-            operand.write(decoder.size, arithmetic.tested(value, decoder.size));
-        }
-
-        private void change(Op op) {
+        private void change(Op op, int a) {
             int size = decoder.size;
-            operand.find(decoder.source, size);
-            int a = operand.read(size);
             operand.find(decoder.target, size);
             operand.write(size, arithmetic.combined(op, operand.read(size), a, size));
         }
 
-        private void compare() {
-            int size = decoder.size;
-            operand.find(decoder.source, size);
-            int a = operand.read(size);
-            operand.find(decoder.target, size);
-            arithmetic.combined(Op.COMPARE, operand.read(size), a, size);
+        private void compare(int a) {
+            operand.find(decoder.target, decoder.size);
+            arithmetic.combined(Op.COMPARE, operand.read(decoder.size), a, decoder.size);
         }
 
-        private void changeAddress(Op op) {
-            operand.find(decoder.source, decoder.size);
-            int a = extended(operand.read(decoder.size), decoder.size);
+        private void changeAddress(Op op, int source) {
+            int a = extended(source, decoder.size);
             int register = ADDRESSES + (decoder.target & 7);
             int b = values[register];
             values[register] = op == Op.ADD_ADDRESS ? b + a : op == Op.SUBTRACT_ADDRESS ? b - a : a;
         }
 
-        private void compareAddress() {
-            operand.find(decoder.source, decoder.size);
-            int a = extended(operand.read(decoder.size), decoder.size);
-            arithmetic.combined(Op.COMPARE, values[ADDRESSES + (decoder.target & 7)], a, LONG);
+        private void compareAddress(int source) {
+            int b = values[ADDRESSES + (decoder.target & 7)];
+            arithmetic.combined(Op.COMPARE, b, extended(source, decoder.size), LONG);
         }
 
-        private void multiply() {
-            operand.find(decoder.source, WORD);
-            int a = operand.read(WORD);
+        private void multiply(int a) {
             int register = decoder.upperRegister();
             int b = values[register] & 0xFFFF;
             int product = decoder.bit8() == 0 ? b * a : extended(b, WORD) * extended(a, WORD);
             values[register] = arithmetic.tested(product, LONG);
         }
 
-        private void divide() {
-            operand.find(decoder.source, WORD);
-            int a = operand.read(WORD);
+        private void divide(int a) {
             if (a == 0) {
                 raised = DIVISION;
                 return;
@@ -1116,9 +1101,7 @@ public final class SupervisorMachine {
             arithmetic.tested(low, WORD);
         }
 
-        private void checkBounds() {
-            operand.find(decoder.source, WORD);
-            int bound = extended(operand.read(WORD), WORD);
+        private void checkBounds(int bound) {
             int x = extended(values[decoder.upperRegister()], WORD);
             if (x < 0 || x > bound) {
                 registers.changeFlags(N, x < 0 ? N : 0);

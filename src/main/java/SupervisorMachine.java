@@ -1253,7 +1253,7 @@ public final class SupervisorMachine {
             int value = values[decoder.upperRegister()];
             int last = bytesOf(size) - 1;
             for (int i = 0; i <= last; i++) {
-                bus.write(at + 2 * i, BYTE, value >>> 8 * (last - i) & 255);
+                bus.write(at + 2 * i, BYTE, value >>> 8 * (last - i));
             }
         }
 
@@ -1367,7 +1367,6 @@ public final class SupervisorMachine {
         }
 
         void startAnew() {
-            registers.changeStatus(values[STATUS] | S);
             registers.changeStatus(STATUS_AT_RESET);
             bus.clearError();
             values[STACK] = bus.read(0, LONG, Bus.READING);
@@ -1405,10 +1404,10 @@ public final class SupervisorMachine {
         }
 
         private Op begin() {
-            bus.clearError();
             registers.keep();
             traced = registers.has(T);
             firstWord = operand.fetch(WORD);
+            // A word that could not be read tells no instruction; the error is looked at in the end.
             if (bus.error != 0) {
                 return Op.NOTHING;
             }

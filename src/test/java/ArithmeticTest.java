@@ -133,6 +133,8 @@ public final class ArithmeticTest {
             {0, 0x50, 0x49, 0, 0x99, 8},
             {0, 0x0F, 0x0F, 2, 0x24, 0},
             {0, 0xFF, 0xFF, 16, 0x65, 17},
+            {0, 0x4F, 0x4A, 0, 0x9F, 8},
+            {0, 0x50, 0x50, 4, 0x00, 21},
         });
         rows(check, "take away in tens", Rig.op(8, 0, 1, 0, Rig.d(1)), new int[][] {
             {0, 0x47, 0x28, 0, 0x19, 0},
@@ -221,6 +223,9 @@ public final class ArithmeticTest {
         check.equal("in memory", 0, rig.word(0x700));
         check.equal("flags", 21, rig.flags());
         check.equal("found once", 0x702, rig.get(9));
+        rig = new Rig(Rig.op(9, 2, 1, Rig.WORD, Rig.a(7)));
+        rig.step();
+        check.equal("A7 less 2", Rig.STACK - 2, rig.get(15));
     }
 
     private static void byNumber(Check check) {
@@ -265,6 +270,10 @@ public final class ArithmeticTest {
         rows(check, "tested", Rig.three(16, Rig.d(0)), new int[][] {
             {0, 0x180, 0, 31, 0x180, 24}, {1, 0x10000, 0, 3, 0x10000, 4}, {2, 1, 0, 31, 1, 16},
         });
+        Rig other = new Rig(Rig.three(14, Rig.d(5)), Rig.three(10, Rig.d(7))).with(5, 1).with(7, 2);
+        other.m.run(2);
+        check.equal("D5 turned", -2, other.get(5));
+        check.equal("D7 below 0", -2, other.get(7));
         int[][] tens = {{0x01, 0, 0x99, 25}, {0x00, 20, 0x99, 25}, {0x00, 4, 0x00, 4}, {0x00, 0, 0x00, 0}, {0x99, 16, 0x00, 17}};
         for (int[] row : tens) {
             Rig rig = new Rig(Rig.three(15, Rig.at(0))).with(8, 0x700).write(0x700, row[0] << 8).flags(row[1]);

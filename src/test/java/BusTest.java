@@ -5,6 +5,7 @@ public final class BusTest {
         Check check = new Check("BusTest");
         wrapping(check);
         errors(check);
+        nothingBehindAnError(check);
         fence(check);
         frame(check);
         frameOfTheFirstWord(check);
@@ -47,6 +48,27 @@ public final class BusTest {
         check.equal("a long round the end", 2, answer(Rig.LONG, -2));
     }
 
+
+    private static void nothingBehindAnError(Check check) {
+        Rig rig = new Rig(Rig.move(Rig.BYTE, Rig.SHORT_PLACE, Rig.SHORT_PLACE), Rig.OPEN_PLACE, 4096);
+        check.equal("an open source", 2, rig.step());
+        check.equal("nothing is said behind it", 0, rig.m.device(4));
+        rig = new Rig(Rig.move(Rig.WORD, Rig.at(0), Rig.SHORT_PLACE), 0x700).with(8, 1).write(0x700, 0x1234);
+        check.equal("an odd source", 3, rig.step());
+        check.equal("nothing is written behind it", 0x1234, rig.word(0x700));
+        rig = new Rig(Rig.op(4, 0, 1, Rig.BYTE, Rig.a(1))).with(8, 4097).with(9, Rig.OPEN_PLACE);
+        rig.m.type(1);
+        check.equal("an open source in chain", 2, rig.step());
+        check.equal("nothing is read behind it", 1, rig.m.device(3));
+        rig = new Rig(Rig.three(22, Rig.at(0)), 0x0003).with(8, 0x3FE).with(1, -1);
+        rig.m.fence(0x400);
+        check.equal("the first of many is below the fence", 2, rig.step());
+        check.equal("the second is not written", 0, rig.longAt(0x402));
+        check.equal("the address of the first is pushed", 0x3FE, rig.longAt(Rig.STACK - 12));
+        rig = new Rig(Rig.STOP).with(Rig.PC, 2046).write(2046, Rig.STOP);
+        check.equal("no word to stop with", 2, rig.step());
+        check.equal("not STOPPED", 0, rig.m.state());
+    }
 
     private static void fence(Check check) {
         for (int size = 0; size < 3; size++) {

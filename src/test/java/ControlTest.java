@@ -13,6 +13,7 @@ public final class ControlTest {
         singles(check);
         bits(check);
         shifts(check);
+        shiftsOfOtherRegisters(check);
         shiftsInMemory(check);
         check.end();
     }
@@ -190,6 +191,13 @@ public final class ControlTest {
         rig.step();
         check.equal("it was set", 0x180, rig.get(1));
         check.equal("N", 24, rig.flags());
+        check.equal("grown by one", 0x701, rig.get(8));
+        rig = new Rig(Rig.three(19, Rig.at(0)), Rig.three(20, Rig.d(4))).with(8, 0x701).write(0x700, 0xFF01, 0xFFFF);
+        rig.with(4, 0x80000001);
+        check.equal("an odd byte", 0, rig.step());
+        check.equal("the byte alone", 0xFF81, rig.word(0x700));
+        rig.step();
+        check.equal("words change places without signs", 0x00018000, rig.get(4));
         rig = new Rig(Rig.three(4, Rig.SHORT_PLACE), 4096, Rig.op(9, 0, 0, 3, Rig.SHORT_PLACE), 4096);
         rig.m.type(1);
         rig.m.run(2);
@@ -249,6 +257,14 @@ public final class ControlTest {
             check.equal(what + ": result", row[6], rig.get(0));
             check.equal(what + ": flags", row[7], rig.flags());
         }
+    }
+
+    private static void shiftsOfOtherRegisters(Check check) {
+        Rig rig = new Rig(Rig.op(13, 3, 1, Rig.LONG, 1 << 3 | 7), Rig.op(13, 7, 0, Rig.WORD, 32 | 3 << 3 | 7)).with(7, 0x201);
+        rig.step();
+        check.equal("D7 by the number 3", 0x1008, rig.get(7));
+        rig.step();
+        check.equal("D7 by itself, 8", 0x0810, rig.get(7));
     }
 
     private static void shiftsInMemory(Check check) {

@@ -83,7 +83,8 @@ public final class OperandTest {
             {0x9010, 9, 0x5555FFF0, 0x600}, // A1, its word, below 0
             {0x9890, 9, 0x01000100, 0x690}, // A1 as a whole, byte below 0
             {0xF700, 15, 0x00000040, 0x640}, // A7, bits 8 to 10 do not count
-            {0x607F, 6, 0x00008000 - 0x8000, 0x67F}, // D6
+            {0x607F, 6, 0, 0x67F}, // D6
+            {0x1001, 1, 0x12340020, 0x621}, // its lowest bit does not tell that it is a whole
         };
         for (int[] row : rows) {
             Rig rig = new Rig(Rig.move(Rig.BYTE, Rig.indexed(4), Rig.d(0)), row[0]).with(12, 0x600).with(row[1], row[2]);
@@ -103,6 +104,11 @@ public final class OperandTest {
         rig = new Rig(Rig.move(Rig.WORD, Rig.FROM_PC_INDEXED, Rig.d(0)), 0x10FE, 0xCAFE).with(1, 4);
         done(check, "from the PC by an index", rig);
         check.equal("the place of the word counts, too", 0xCAFE, rig.get(0));
+        rig = new Rig(Rig.op(14, 1, 1, 0, Rig.FROM_PC), 0xFFFE, Rig.op(14, 2, 1, 0, Rig.SHORT_PLACE), 0x8002);
+        done(check, "before the PC", rig);
+        check.equal("EXTENDED, from the PC", Rig.START, rig.get(9));
+        done(check, "a short place", rig);
+        check.equal("EXTENDED as a place", 0xFFFF8002, rig.get(10));
         rig = new Rig(Rig.op(12, 4, 0, 0, Rig.FROM_PC), 3, 4, 0, 0x0800);
         done(check, "behind a number", rig);
         check.equal("its own place counts", 0, rig.flags() & Rig.Z);

@@ -80,6 +80,16 @@ public final class PortTest {
         check.equal("the upper half of the timer", 0xFEFF, rig.m.device(0));
         rig.step();
         check.equal("the lower half of the timer", 0xFEFE, rig.m.device(0));
+        rig = new Rig(Rig.move(Rig.WORD, Rig.NUMBER, Rig.SHORT_PLACE), 0x8182, 4098,
+                Rig.move(Rig.WORD, Rig.SHORT_PLACE, Rig.d(1)), 4098,
+                Rig.move(Rig.BYTE, Rig.NUMBER, Rig.SHORT_PLACE), 0x13, 4098,
+                Rig.move(Rig.BYTE, Rig.NUMBER, Rig.SHORT_PLACE), 0x00, 4099);
+        rig.m.run(2);
+        check.equal("the timer is read as it is before the end of the step", 0x8181, rig.get(1));
+        rig.step();
+        check.equal("only its upper half is written", 0x137F, rig.m.device(0));
+        rig.step();
+        check.equal("only its lower half is written", 0x12FF, rig.m.device(0));
     }
 
     private static void device(Check check) {

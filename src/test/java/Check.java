@@ -1,7 +1,14 @@
-/** Counts and prints the answers that are not as due; end() leaves with exit code 1 if there was one. */
+import java.util.function.Consumer;
+
+/**
+ * Counts and prints the answers that are not as due; end() leaves with exit code 1 if there was one.
+ * A test that belongs to one sentence of the document names the promise and the sentence.
+ */
 final class Check {
 
     private final String name;
+    private String heading = "";
+    private int sentences;
     private int answers;
     private int wrong;
 
@@ -9,11 +16,26 @@ final class Check {
         this.name = name;
     }
 
+    /** The promise, the sentence of the document word by word, and the test that fails if it is broken. */
+    void sentence(String promise, String words, Consumer<Check> test) {
+        heading = promise + " \"" + words + "\": ";
+        int before = answers;
+        try {
+            test.accept(this);
+        } catch (RuntimeException e) {
+            tell("ended by " + e);
+        }
+        if (answers == before) {
+            tell("nothing was asked");
+        }
+        heading = "";
+        sentences++;
+    }
+
     void equal(String what, long due, long got) {
         answers++;
         if (due != got) {
-            wrong++;
-            System.out.println(name + ": " + what + ": due is " + due + ", answered " + got
+            tell(what + ": due is " + due + ", answered " + got
                     + " (0x" + Long.toHexString(due) + ", 0x" + Long.toHexString(got) + ")");
         }
     }
@@ -32,15 +54,19 @@ final class Check {
         }
         answers++;
         if (got != due) {
-            wrong++;
-            System.out.println(name + ": " + what + ": due is " + due + ", thrown " + got);
+            tell(what + ": due is " + due + ", thrown " + got);
         }
     }
 
     void end() {
-        System.out.println(name + ": " + answers + " answers, " + wrong + " wrong");
+        System.out.println(name + ": " + sentences + " sentences, " + answers + " answers, " + wrong + " wrong");
         if (wrong != 0 || answers == 0) {
             System.exit(1);
         }
+    }
+
+    private void tell(String what) {
+        wrong++;
+        System.out.println(name + ": " + heading + what);
     }
 }

@@ -35,8 +35,8 @@ final class Rig {
 
     Rig(int... words) {
         m.fill(0, 4, (long) STACK << 32 | START);
-        for (int v = 2; v < 48; v++) {
-            m.fill(4 * v, 2, handler(v));
+        for (int v = 2; v < 48; v += 2) {
+            m.fill(4 * v, 4, (long) handler(v) << 32 | handler(v + 1));
         }
         write(START, words);
         m.reset();
@@ -133,26 +133,5 @@ final class Rig {
 
     int longAt(int place) {
         return word(place) << 16 | word(place + 2);
-    }
-
-    /** All that can be asked of the machine, to see that nothing has changed. */
-    String all() {
-        StringBuilder text = new StringBuilder();
-        for (int what = 0; what < 19; what++) {
-            text.append(m.get(what)).append(' ');
-        }
-        for (int what = 0; what < 5; what++) {
-            text.append(m.device(what)).append(' ');
-        }
-        for (int place = 0; place < 2048; place++) {
-            text.append(m.memory(place)).append(' ');
-        }
-        for (int k = 0; k < 64; k++) {
-            text.append(m.said(k)).append(' ');
-        }
-        for (int vector = 0; vector < 48; vector++) {
-            text.append(m.counted(vector)).append(' ');
-        }
-        return text.append(m.state()).toString();
     }
 }

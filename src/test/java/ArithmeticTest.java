@@ -25,7 +25,8 @@ public final class ArithmeticTest {
     private static void rows(Check check, String what, int word, int[][] rows) {
         for (int[] row : rows) {
             Rig rig = new Rig(word | row[0] << 6).with(0, row[1]).with(1, row[2]).flags(row[3]);
-            String text = what + " " + Integer.toHexString(row[1]) + ", " + Integer.toHexString(row[2]) + " size " + row[0];
+            String text = what + " " + Integer.toHexString(row[1]) + ", " + Integer.toHexString(row[2])
+                    + " size " + row[0];
             check.equal(text, 0, rig.step());
             check.equal(text + ": result", row[4], rig.get(0));
             check.equal(text + ": flags", row[5], rig.flags());
@@ -72,7 +73,8 @@ public final class ArithmeticTest {
             {1, 0x8000, 1, 0, 0x8000, 2},
             {2, 9, 8, 15, 9, 0},
         });
-        Rig rig = new Rig(Rig.op(6, 1, 1, Rig.WORD, Rig.a(2))).with(9, 0x700).with(10, 0x710).write(0x700, 5).write(0x710, 6);
+        Rig rig = new Rig(Rig.op(6, 1, 1, Rig.WORD, Rig.a(2))).with(9, 0x700).with(10, 0x710).write(0x700, 5)
+                .write(0x710, 6);
         check.equal("memory with memory", 0, rig.step());
         check.equal("what is at AR less what is at Ar", Rig.N | Rig.C, rig.flags());
         check.equal("AR grows", 0x702, rig.get(9));
@@ -179,7 +181,8 @@ public final class ArithmeticTest {
 
     private static void logic(Check check) {
         rows(check, "and", Rig.op(7, 0, 0, 0, Rig.d(1)), new int[][] {
-            {0, 0x12F0, 0x0F, 31, 0x1200, 20}, {1, 0x1F0F0, 0xFF00, 0, 0x1F000, 8}, {2, 0x7FFFFFFF, -1, 3, 0x7FFFFFFF, 0},
+            {0, 0x12F0, 0x0F, 31, 0x1200, 20}, {1, 0x1F0F0, 0xFF00, 0, 0x1F000, 8},
+            {2, 0x7FFFFFFF, -1, 3, 0x7FFFFFFF, 0},
         });
         rows(check, "or", Rig.op(8, 0, 0, 0, Rig.d(1)), new int[][] {
             {0, 0x12F0, 0x0F, 31, 0x12FF, 24}, {1, 0x10000, 0, 0, 0x10000, 4}, {2, 1, 2, 3, 3, 0},
@@ -274,7 +277,8 @@ public final class ArithmeticTest {
         other.m.run(2);
         check.equal("D5 turned", -2, other.get(5));
         check.equal("D7 below 0", -2, other.get(7));
-        int[][] tens = {{0x01, 0, 0x99, 25}, {0x00, 20, 0x99, 25}, {0x00, 4, 0x00, 4}, {0x00, 0, 0x00, 0}, {0x99, 16, 0x00, 17}};
+        int[][] tens = {{0x01, 0, 0x99, 25}, {0x00, 20, 0x99, 25}, {0x00, 4, 0x00, 4}, {0x00, 0, 0x00, 0},
+            {0x99, 16, 0x00, 17}};
         for (int[] row : tens) {
             Rig rig = new Rig(Rig.three(15, Rig.at(0))).with(8, 0x700).write(0x700, row[0] << 8).flags(row[1]);
             rig.step();
@@ -298,7 +302,8 @@ public final class ArithmeticTest {
 
     private static void quotients(Check check) {
         int[][] rows = { // D, DR, e, DR then, flags then (31 before)
-            {0, 100, 7, 0x0002000E, 16}, {0, 0xFFFF0000, 0xFFFF, 0xFFFF0000, 30}, {0, 0xFFFEFFFF, 0xFFFF, 0xFFFEFFFF, 24},
+            {0, 100, 7, 0x0002000E, 16}, {0, 0xFFFF0000, 0xFFFF, 0xFFFF0000, 30},
+            {0, 0xFFFEFFFF, 0xFFFF, 0xFFFEFFFF, 24},
             {0, 3, 5, 0x00030000, 20}, {0, 0x80000000, 1, 0x80000000, 30},
             {1, -100, 7, 0xFFFEFFF2, 24}, {1, 100, -7, 0x0002FFF2, 24}, {1, -100, -7, 0xFFFE000E, 16},
             {1, 0x80000000, -1, 0x80000000, 30}, {1, 32768, 1, 32768, 30}, {1, -32768, 1, 0x8000, 24},

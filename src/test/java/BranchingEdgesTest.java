@@ -8,34 +8,55 @@ public final class BranchingEdgesTest {
 
     public static void main(String[] args) {
         Check check = new Check("BranchingEdgesTest");
-        check.sentence(ELEVEN, "the way w is the lowest byte EXTENDED, or if that is 0 the next word; p is the place behind the first word.",
+        check.sentence(ELEVEN,
+                "the way w is the lowest byte EXTENDED, or if that is 0 the next word; p is the place behind the "
+                + "first word.",
                 BranchingEdgesTest::ways);
-        check.sentence(ELEVEN, "If k holds, or is 1, the PC becomes p + w; for k 1 the PC (behind the instruction) is pushed before.",
+        check.sentence(ELEVEN,
+                "If k holds, or is 1, the PC becomes p + w; for k 1 the PC (behind the instruction) is pushed "
+                + "before.",
                 BranchingEdgesTest::branches);
-        check.sentence(TWELVE, "with p = Ar + the next word EXTENDED, 2 or 4 bytes at p, p + 2, .. (accesses of bytes; the highest one first)",
+        check.sentence(TWELVE,
+                "with p = Ar + the next word EXTENDED, 2 or 4 bytes at p, p + 2, .. (accesses of bytes; the "
+                + "highest one first)",
                 BranchingEdgesTest::everyOtherByte);
         check.sentence(TWELVE, "z 0 and 1 to DR's word, or DR; 2 and 3 from it.", BranchingEdgesTest::toAndFrom);
-        check.sentence(TWELVE, "a D's as a long, bit number modulo 32, else a byte's, modulo 8; Z becomes whether it was 0.",
+        check.sentence(TWELVE,
+                "a D's as a long, bit number modulo 32, else a byte's, modulo 8; Z becomes whether it was 0.",
                 BranchingEdgesTest::bitNumbers);
-        check.sentence(TWELVE, "z 0 none, 1 turned, 2 becomes 0, 3 becomes 1, of OPEN DATA e (z 0: DATA e, but for R 4 not M 7 with r 4)",
+        check.sentence(TWELVE,
+                "z 0 none, 1 turned, 2 becomes 0, 3 becomes 1, of OPEN DATA e (z 0: DATA e, but for R 4 not M 7 "
+                + "with r 4)",
                 BranchingEdgesTest::bitKinds);
-        check.sentence(TWELVE, "OPEN DATA e (z < 3) and the number that the next word (byte: its lower half) or long is "
-                + "(taken away from e, e COMPARED with it), to e, the first three TESTED.", BranchingEdgesTest::numbers);
-        check.sentence(TWELVE, "But R 0, 1, 5 with M 7, r 4: z 0: the FLAGS with the lowest bits of the next word, "
-                + "z 1, PRIVILEGED: the STATUS with that word.", BranchingEdgesTest::statusWithNumbers);
-        check.sentence(THIRTEEN, "Dr n times, n being R, or 8 for 0, if bit 5 is 0, and otherwise DR modulo 64, of kind bits 3, 4",
+        check.sentence(TWELVE,
+                "OPEN DATA e (z < 3) and the number that the next word (byte: its lower half) or long is (taken "
+                + "away from e, e COMPARED with it), to e, the first three TESTED.",
+                BranchingEdgesTest::numbers);
+        check.sentence(TWELVE,
+                "But R 0, 1, 5 with M 7, r 4: z 0: the FLAGS with the lowest bits of the next word, z 1, "
+                + "PRIVILEGED: the STATUS with that word.",
+                BranchingEdgesTest::statusWithNumbers);
+        check.sentence(THIRTEEN,
+                "Dr n times, n being R, or 8 for 0, if bit 5 is 0, and otherwise DR modulo 64, of kind bits 3, 4",
                 BranchingEdgesTest::howOften);
         check.sentence(THIRTEEN, "z 3: OPEN MEMORY e, a word, once, of kind R (0 .. 3).", BranchingEdgesTest::inMemory);
-        check.sentence(THIRTEEN, "Each time by one bit; the one that goes out becomes C, and X but for kind 3; there comes in: "
-                + "for kind 0 and 1 0 (kind 0 to the right: the highest bit again), kind 2 X as it was, kind 3 the one that goes out.",
+        check.sentence(THIRTEEN,
+                "Each time by one bit; the one that goes out becomes C, and X but for kind 3; there comes in: "
+                + "for kind 0 and 1 0 (kind 0 to the right: the highest bit again), kind 2 X as it was, kind 3 the "
+                + "one that goes out.",
                 BranchingEdgesTest::shifts);
-        check.sentence(THIRTEEN, "N and Z of the result; V whether the highest bit changed at any time, for kind 0 to the left, else 0.",
+        check.sentence(THIRTEEN,
+                "N and Z of the result; V whether the highest bit changed at any time, for kind 0 to the left, "
+                + "else 0.",
                 BranchingEdgesTest::changedAtAnyTime);
         check.sentence(THIRTEEN, "With n 0 C becomes 0, for kind 2 X.", BranchingEdgesTest::notAtAll);
-        check.sentence(FOURTEEN, "D 0: DR becomes the lowest byte EXTENDED, TESTED as a long.", BranchingEdgesTest::quick);
+        check.sentence(FOURTEEN, "D 0: DR becomes the lowest byte EXTENDED, TESTED as a long.",
+                BranchingEdgesTest::quick);
         check.sentence(FOURTEEN, "z 0: AR becomes the ADDRESS of CONTROL e.", BranchingEdgesTest::addresses);
-        check.sentence(FOURTEEN, "with DR's word x and DATA e, a word, both with signs: if x is below 0, N becomes 1, "
-                + "if it is above e, N becomes 0: exception 6 in both cases; otherwise nothing.", BranchingEdgesTest::bounds);
+        check.sentence(FOURTEEN,
+                "with DR's word x and DATA e, a word, both with signs: if x is below 0, N becomes 1, if it is "
+                + "above e, N becomes 0: exception 6 in both cases; otherwise nothing.",
+                BranchingEdgesTest::bounds);
         check.end();
     }
 
@@ -43,7 +64,8 @@ public final class BranchingEdgesTest {
         int p = Rig.START + 2;
         int[][] rows = { // lowest byte, next word, PC then
             {1, 0, p + 1}, {0x7F, 0, p + 0x7F}, {0x80, 0, p - 0x80}, {0xFF, 0, p - 1}, {0xFE, 0, Rig.START},
-            {0, 0, p}, {0, 2, p + 2}, {0, 0x7FFF, p + 0x7FFF}, {0, 0x8000, p - 0x8000}, {0, 0xFFFF, p - 1}, {0, 0x80, p + 0x80},
+            {0, 0, p}, {0, 2, p + 2}, {0, 0x7FFF, p + 0x7FFF}, {0, 0x8000, p - 0x8000}, {0, 0xFFFF, p - 1},
+            {0, 0x80, p + 0x80},
         };
         for (int[] row : rows) {
             Rig rig = new Rig(Rig.branch(0, row[0]), row[1]);
@@ -135,11 +157,13 @@ public final class BranchingEdgesTest {
     private static void bitNumbers(Check check) {
         int[] numbers = {0, 1, 7, 8, 15, 31, 32, 33, 63, 64, 255, 256, -1, -31, Integer.MIN_VALUE, Integer.MAX_VALUE};
         for (int number : numbers) {
-            Rig byRegister = new Rig(Rig.op(12, 1, 1, 3, Rig.d(0)), Rig.op(12, 1, 1, 3, Rig.at(0))).with(1, number).with(8, 0x701);
+            Rig byRegister = new Rig(Rig.op(12, 1, 1, 3, Rig.d(0)), Rig.op(12, 1, 1, 3, Rig.at(0))).with(1, number)
+                    .with(8, 0x701);
             byRegister.m.run(2);
             check.equal("a D's bit by DR, " + number, 1 << (number & 31), byRegister.get(0));
             check.equal("a byte's bit by DR, " + number, 1 << (number & 7), byRegister.word(0x700));
-            Rig byNumber = new Rig(Rig.op(12, 4, 0, 3, Rig.d(0)), number & 0xFFFF, Rig.op(12, 4, 0, 3, Rig.at(0)), number & 0xFFFF)
+            Rig byNumber = new Rig(Rig.op(12, 4, 0, 3, Rig.d(0)), number & 0xFFFF, Rig.op(12, 4, 0, 3, Rig.at(0)),
+                    number & 0xFFFF)
                     .with(8, 0x701);
             byNumber.m.run(2);
             check.equal("a D's bit by a number, " + number, 1 << (number & 31), byNumber.get(0));
@@ -162,7 +186,8 @@ public final class BranchingEdgesTest {
         int[] ofZero = {0, 16, 0, 16};
         int[] ofAll = {-1, -17, -17, -1};
         for (int z = 0; z < 4; z++) {
-            Rig rig = new Rig(Rig.op(12, 1, 1, z, Rig.d(0)), Rig.op(12, 4, 0, z, Rig.d(2)), 4).with(1, 4).with(2, -1).flags(27);
+            Rig rig = new Rig(Rig.op(12, 1, 1, z, Rig.d(0)), Rig.op(12, 4, 0, z, Rig.d(2)), 4).with(1, 4).with(2, -1)
+                    .flags(27);
             rig.step();
             check.equal("z " + z + " of a 0", ofZero[z], rig.get(0));
             check.equal("it was 0", 31, rig.flags());
@@ -179,7 +204,8 @@ public final class BranchingEdgesTest {
         }
         for (int z = 0; z < 4; z++) {
             check.equal("of a number by a number", 4, new Rig(Rig.op(12, 4, 0, z, Rig.NUMBER), 0, 0).step());
-            check.equal("from the PC by a number", z == 0 ? 0 : 4, new Rig(Rig.op(12, 4, 0, z, Rig.FROM_PC), 0, 0).step());
+            check.equal("from the PC by a number", z == 0 ? 0 : 4, new Rig(Rig.op(12, 4, 0, z, Rig.FROM_PC), 0, 0)
+                    .step());
             check.equal("of an A", 4, new Rig(Rig.op(12, 4, 0, z, Rig.a(0)), 0).step());
         }
         Rig fenced = new Rig(Rig.op(12, 1, 1, 0, Rig.SHORT_PLACE), 0x10, Rig.op(12, 1, 1, 2, Rig.SHORT_PLACE), 0x10);
@@ -193,9 +219,12 @@ public final class BranchingEdgesTest {
 
     private static void numbers(Check check) {
         int[][] rows = { // R, size, D0, the number, D0 then, flags then (31 before)
-            {0, 0, 0x1100, 0xFF80, 0x1180, 24}, {0, 0, 0x1100, 0xFF00, 0x1100, 20}, {0, 1, 0x110000, 0x8000, 0x118000, 24},
-            {0, 2, 0, 0x80000000, 0x80000000, 24}, {1, 0, 0x11FF, 0xFF0F, 0x110F, 16}, {1, 1, 0x11FFFF, 0, 0x110000, 20},
-            {1, 2, -1, 0x80000000, 0x80000000, 24}, {5, 0, 0x11FF, 0xFF, 0x1100, 20}, {5, 1, 0xAAAA, 0x5555, 0xFFFF, 24},
+            {0, 0, 0x1100, 0xFF80, 0x1180, 24}, {0, 0, 0x1100, 0xFF00, 0x1100, 20},
+            {0, 1, 0x110000, 0x8000, 0x118000, 24},
+            {0, 2, 0, 0x80000000, 0x80000000, 24}, {1, 0, 0x11FF, 0xFF0F, 0x110F, 16},
+            {1, 1, 0x11FFFF, 0, 0x110000, 20},
+            {1, 2, -1, 0x80000000, 0x80000000, 24}, {5, 0, 0x11FF, 0xFF, 0x1100, 20},
+            {5, 1, 0xAAAA, 0x5555, 0xFFFF, 24},
             {5, 2, -1, 0x80000000, 0x7FFFFFFF, 16}, {2, 0, 0x1105, 0xFF06, 0x11FF, 25}, {2, 0, 0x80, 1, 0x7F, 2},
             {2, 1, 0x8000, 1, 0x7FFF, 2}, {2, 2, 0, 1, -1, 25}, {2, 2, 5, 5, 0, 4}, {3, 0, 0x7F, 1, 0x80, 10},
             {3, 1, 0xFFFF, 1, 0, 21}, {3, 2, 0x7FFFFFFF, 1, 0x80000000, 10}, {6, 0, 0x1105, 0xFF05, 0x1105, 20},
@@ -227,8 +256,10 @@ public final class BranchingEdgesTest {
 
     private static void statusWithNumbers(Check check) {
         int[][] rows = { // R, size, the word, STATUS then (0x2715 before)
-            {0, 0, 0x0000, 0x2715}, {0, 0, 0xFFFF, 0x271F}, {0, 0, 0xFFE0, 0x2715}, {1, 0, 0x0000, 0x2700}, {1, 0, 0xFFFF, 0x2715},
-            {5, 0, 0xFFFF, 0x270A}, {5, 0, 0xFFE0, 0x2715}, {0, 1, 0xFFFF, 0xA71F}, {0, 1, 0, 0x2715}, {1, 1, 0xFFFF, 0x2715},
+            {0, 0, 0x0000, 0x2715}, {0, 0, 0xFFFF, 0x271F}, {0, 0, 0xFFE0, 0x2715}, {1, 0, 0x0000, 0x2700},
+            {1, 0, 0xFFFF, 0x2715},
+            {5, 0, 0xFFFF, 0x270A}, {5, 0, 0xFFE0, 0x2715}, {0, 1, 0xFFFF, 0xA71F}, {0, 1, 0, 0x2715},
+            {1, 1, 0xFFFF, 0x2715},
             {1, 1, 0x2000, 0x2000}, {1, 1, 0, 0}, {5, 1, 0xFFFF, 0x800A}, {5, 1, 0, 0x2715},
         };
         for (int[] row : rows) {
@@ -286,7 +317,8 @@ public final class BranchingEdgesTest {
         rig.step();
         int[] due = shifted(value, size, kind, left == 1, n & 63, before & Rig.X);
         int mask = size == 2 ? -1 : (1 << (8 << size)) - 1;
-        String what = "kind " + kind + ", D " + left + ", size " + size + ", n " + n + " of " + Integer.toHexString(value) + " with " + before;
+        String what = "kind " + kind + ", D " + left + ", size " + size + ", n " + n
+                + " of " + Integer.toHexString(value) + " with " + before;
         check.equal(what + ": result", value & ~mask | due[0], rig.get(0));
         check.equal(what + ": flags", due[1], rig.flags());
     }
@@ -294,12 +326,14 @@ public final class BranchingEdgesTest {
     private static void howOften(Check check) {
         for (int r = 0; r < 8; r++) {
             int n = r == 0 ? 8 : r;
-            Rig rig = new Rig(Rig.op(13, r, 1, Rig.LONG, 1 << 3 | 7), Rig.op(13, r, 0, Rig.LONG, 1 << 3 | 6)).with(7, 1).with(6, 1 << 16);
+            Rig rig = new Rig(Rig.op(13, r, 1, Rig.LONG, 1 << 3 | 7), Rig.op(13, r, 0, Rig.LONG, 1 << 3 | 6))
+                    .with(7, 1).with(6, 1 << 16);
             rig.m.run(2);
             check.equal("to the left by R " + r, 1 << n, rig.get(7));
             check.equal("to the right by R " + r, 1 << 16 - n, rig.get(6));
         }
-        for (int n : new int[] {0, 1, 31, 32, 33, 62, 63, 64, 65, 127, 128, -1, -63, -64, Integer.MIN_VALUE, Integer.MAX_VALUE}) {
+        for (int n : new int[] {0, 1, 31, 32, 33, 62, 63, 64, 65, 127, 128, -1, -63, -64, Integer.MIN_VALUE,
+                Integer.MAX_VALUE}) {
             for (int kind = 0; kind < 4; kind++) {
                 for (int left = 0; left < 2; left++) {
                     shift(check, kind, left, Rig.LONG, n, 0x80000001, Rig.X);
@@ -317,7 +351,8 @@ public final class BranchingEdgesTest {
             for (int left = 0; left < 2; left++) {
                 for (int value : new int[] {0, 1, 0x4000, 0x7FFF, 0x8000, 0x8001, 0xC000, 0xFFFF}) {
                     for (int before : new int[] {0, 31}) {
-                        Rig rig = new Rig(Rig.op(13, kind, left, 3, Rig.behind(0))).with(8, 0x700).write(0x700, value, 0xAAAA).flags(before);
+                        Rig rig = new Rig(Rig.op(13, kind, left, 3, Rig.behind(0))).with(8, 0x700)
+                                .write(0x700, value, 0xAAAA).flags(before);
                         check.equal("answer", 0, rig.step());
                         int[] due = shifted(value, Rig.WORD, kind, left == 1, 1, before & Rig.X);
                         check.equal("kind " + kind + ", D " + left + " of " + value, due[0], rig.word(0x700));
@@ -326,7 +361,8 @@ public final class BranchingEdgesTest {
                         check.equal("not behind it", 0xAAAA, rig.word(0x702));
                     }
                 }
-                check.equal("kind " + (kind + 4) + " is none", 4, new Rig(Rig.op(13, kind + 4, left, 3, Rig.at(0))).step());
+                check.equal("kind " + (kind + 4) + " is none", 4, new Rig(Rig.op(13, kind + 4, left, 3, Rig.at(0)))
+                        .step());
             }
         }
         check.equal("of a D it is none", 4, new Rig(Rig.op(13, 0, 0, 3, Rig.d(0))).step());
@@ -351,16 +387,19 @@ public final class BranchingEdgesTest {
 
     private static void changedAtAnyTime(Check check) {
         int[][] rows = { // D0, n, V due, to the left as a byte
-            {0x40, 1, 1}, {0x40, 2, 1}, {0xC0, 1, 0}, {0xC0, 2, 1}, {0x3F, 1, 0}, {0x3F, 2, 1}, {0xFF, 7, 0}, {0xFF, 8, 1},
+            {0x40, 1, 1}, {0x40, 2, 1}, {0xC0, 1, 0}, {0xC0, 2, 1}, {0x3F, 1, 0}, {0x3F, 2, 1}, {0xFF, 7, 0},
+            {0xFF, 8, 1},
             {0x80, 1, 1}, {0x00, 63, 0}, {0xA0, 3, 1}, {0x01, 6, 0}, {0x01, 7, 1}, {0x01, 8, 1},
         };
         for (int[] row : rows) {
             for (int kind = 0; kind < 4; kind++) {
                 for (int left = 0; left < 2; left++) {
-                    Rig rig = new Rig(Rig.op(13, 1, left, Rig.BYTE, 32 | kind << 3)).with(0, row[0]).with(1, row[1]).flags(Rig.V);
+                    Rig rig = new Rig(Rig.op(13, 1, left, Rig.BYTE, 32 | kind << 3)).with(0, row[0]).with(1, row[1])
+                            .flags(Rig.V);
                     rig.step();
                     int due = kind == 0 && left == 1 ? row[2] * Rig.V : 0;
-                    check.equal("kind " + kind + ", D " + left + ", " + row[0] + " by " + row[1], due, rig.flags() & Rig.V);
+                    check.equal("kind " + kind + ", D " + left + ", " + row[0] + " by " + row[1], due,
+                            rig.flags() & Rig.V);
                 }
             }
         }
@@ -372,7 +411,8 @@ public final class BranchingEdgesTest {
                 for (int left = 0; left < 2; left++) {
                     for (int x : new int[] {0, Rig.X}) {
                         for (int[] row : new int[][] {{0x1100, Rig.Z}, {0x1101, 0}, {0x1180, Rig.N}}) {
-                            Rig rig = new Rig(Rig.op(13, 1, left, Rig.BYTE, 32 | kind << 3)).with(0, row[0]).with(1, n).flags(x | 15);
+                            Rig rig = new Rig(Rig.op(13, 1, left, Rig.BYTE, 32 | kind << 3)).with(0, row[0])
+                                    .with(1, n).flags(x | 15);
                             rig.step();
                             int c = kind == 2 && x != 0 ? Rig.C : 0;
                             check.equal("kind " + kind + ", n " + n + ", X " + x, row[1] | x | c, rig.flags());
@@ -409,8 +449,10 @@ public final class BranchingEdgesTest {
 
     private static void bounds(Check check) {
         int[][] rows = { // D0, e, the answer, N then (or -1: it stays)
-            {0, 0, 0, -1}, {1, 0, 6, 0}, {-1, 0, 6, 8}, {5, 5, 0, -1}, {6, 5, 6, 0}, {4, 5, 0, -1}, {0x7FFF, 0x7FFF, 0, -1},
-            {0x7FFF, 0x7FFE, 6, 0}, {0x8000, 0x7FFF, 6, 8}, {0xFFFF, 0x7FFF, 6, 8}, {0x10003, 5, 0, -1}, {0xFFFF0003, 5, 0, -1},
+            {0, 0, 0, -1}, {1, 0, 6, 0}, {-1, 0, 6, 8}, {5, 5, 0, -1}, {6, 5, 6, 0}, {4, 5, 0, -1},
+            {0x7FFF, 0x7FFF, 0, -1},
+            {0x7FFF, 0x7FFE, 6, 0}, {0x8000, 0x7FFF, 6, 8}, {0xFFFF, 0x7FFF, 6, 8}, {0x10003, 5, 0, -1},
+            {0xFFFF0003, 5, 0, -1},
             {0, 0xFFFF, 6, 0}, {0, 0x8000, 6, 0}, {-2, -5, 6, 8}, {-5, -2, 6, 8}, {-5, -5, 6, 8},
         };
         for (int[] row : rows) {

@@ -12,7 +12,8 @@ public final class BusEdgesTest {
         check.sentence(BUS, "It is an ADDRESS ERROR if that is no byte and the address is odd", BusEdgesTest::odd);
         check.sentence(BUS, "otherwise a BUS ERROR if one of its bytes is OPEN", BusEdgesTest::partlyOpen);
         check.sentence(BUS, "or a device's while S is 0", BusEdgesTest::devicesOfTheUser);
-        check.sentence("Promise 4, 6, Terms, THE BUS", "or memory below the FENCE that would be written.", BusEdgesTest::fence);
+        check.sentence("Promise 4, 6, Terms, THE BUS", "or memory below the FENCE that would be written.",
+                BusEdgesTest::fence);
         check.sentence(BUS, "In both cases nothing of it is done", BusEdgesTest::nothingIsDone);
         check.sentence(BUS, "otherwise its bytes are done one by one, the first one first.", BusEdgesTest::oneByOne);
         check.end();
@@ -64,7 +65,8 @@ public final class BusEdgesTest {
         both(check, Rig.BYTE, 2047, 0);
         both(check, Rig.WORD, 2046, 0);
         both(check, Rig.LONG, 2044, 0);
-        check.equal("the user's, too", 0, new Rig(Rig.move(Rig.LONG, Rig.at(0), Rig.at(1))).with(8, 2044).user().step());
+        check.equal("the user's, too", 0, new Rig(Rig.move(Rig.LONG, Rig.at(0), Rig.at(1))).with(8, 2044).user()
+                .step());
         Rig last = new Rig(Rig.move(Rig.LONG, Rig.d(0), Rig.at(0))).with(8, 2044).with(0, 0x01020304);
         last.step();
         check.equal("the last long", 0x01020304, last.longAt(2044));

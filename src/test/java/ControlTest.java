@@ -44,7 +44,8 @@ public final class ControlTest {
 
     private static void branches(Check check) {
         int[][] rows = { // condition, lowest byte, next word, PC then (Z is 1)
-            {0, 0x7F, 0, Rig.START + 2 + 0x7F}, {0, 0x80, 0, Rig.START + 2 - 0x80}, {7, 0, 0x200, Rig.START + 2 + 0x200},
+            {0, 0x7F, 0, Rig.START + 2 + 0x7F}, {0, 0x80, 0, Rig.START + 2 - 0x80},
+            {7, 0, 0x200, Rig.START + 2 + 0x200},
             {7, 0, 0xFFF0, Rig.START + 2 - 0x10}, {6, 0, 0x200, Rig.START + 4}, {6, 0x10, 0, Rig.START + 2},
             {0, 0xFF, 0, Rig.START + 1},
         };
@@ -223,7 +224,8 @@ public final class ControlTest {
             check.equal("bit 1 of a byte", z == 1 || z == 3 ? 0xFF : 0xFD, rig.m.memory(0x701));
             check.equal("it was 0", Rig.Z, rig.flags());
         }
-        Rig rig = new Rig(Rig.op(12, 1, 1, 0, Rig.NUMBER), 0xFF04, Rig.op(12, 4, 1, 0, Rig.NUMBER), 0x0010).with(1, 10).with(4, 4);
+        Rig rig = new Rig(Rig.op(12, 1, 1, 0, Rig.NUMBER), 0xFF04, Rig.op(12, 4, 1, 0, Rig.NUMBER), 0x0010)
+                .with(1, 10).with(4, 4);
         rig.step();
         check.equal("a bit of a number", 0, rig.flags());
         rig.step();
@@ -240,9 +242,11 @@ public final class ControlTest {
             {0, 1, 0, -2, 0x40, 0, 0x80, 10}, {0, 1, 0, -2, 0xC0, 0, 0x80, 25}, {0, 1, 0, 2, 0x40, 0, 0, 23},
             {0, 1, 0, 3, 0xA0, 0, 0, 23}, {0, 1, 2, -2, 0x80000000, 0, 0, 23}, {0, 0, 2, 63, 0x80000000, 0, -1, 25},
             {1, 0, 0, -2, 0x81, 0, 0x40, 17}, {1, 1, 0, -2, 0x81, 0, 2, 17}, {1, 1, 1, 16, 0x10001, 0, 0x10000, 21},
-            {1, 1, 1, 17, 0x10001, 31, 0x10000, 4}, {1, 0, 2, 32, 0x80000000, 0, 0, 21}, {1, 1, 2, -2, 0x40000000, 0, 0x80000000, 8},
+            {1, 1, 1, 17, 0x10001, 31, 0x10000, 4}, {1, 0, 2, 32, 0x80000000, 0, 0, 21},
+            {1, 1, 2, -2, 0x40000000, 0, 0x80000000, 8},
             {2, 0, 0, -2, 0x01, 16, 0x80, 25}, {2, 0, 0, -2, 0x01, 0, 0, 21}, {2, 1, 0, 9, 0xA5, 16, 0xA5, 25},
-            {2, 1, 1, -2, 0x8000, 16, 1, 17}, {2, 1, 2, 33, 0x12345678, 0, 0x12345678, 0}, {2, 0, 0, 64, 0x01, 16, 1, 17},
+            {2, 1, 1, -2, 0x8000, 16, 1, 17}, {2, 1, 2, 33, 0x12345678, 0, 0x12345678, 0},
+            {2, 0, 0, 64, 0x01, 16, 1, 17},
             {2, 0, 0, 0, 0x00, 3, 0, 4}, {3, 0, 0, -2, 0x01, 0, 0x80, 9}, {3, 1, 0, -1, 0x81, 16, 0x81, 25},
             {3, 1, 1, -2, 0x8000, 0, 1, 1}, {3, 0, 2, -2, 1, 16, 0x80000000, 25}, {3, 1, 0, 0, 0x80, 19, 0x80, 24},
             {0, 1, 0, 64, 0x1FF, 19, 0x1FF, 24}, {1, 0, 1, 0, 0, 31, 0, 20},
@@ -260,7 +264,8 @@ public final class ControlTest {
     }
 
     private static void shiftsOfOtherRegisters(Check check) {
-        Rig rig = new Rig(Rig.op(13, 3, 1, Rig.LONG, 1 << 3 | 7), Rig.op(13, 7, 0, Rig.WORD, 32 | 3 << 3 | 7)).with(7, 0x201);
+        Rig rig = new Rig(Rig.op(13, 3, 1, Rig.LONG, 1 << 3 | 7), Rig.op(13, 7, 0, Rig.WORD, 32 | 3 << 3 | 7))
+                .with(7, 0x201);
         rig.step();
         check.equal("D7 by the number 3", 0x1008, rig.get(7));
         rig.step();
@@ -274,7 +279,8 @@ public final class ControlTest {
             {3, 1, 0x8000, 16, 1, 17},
         };
         for (int[] row : rows) {
-            Rig rig = new Rig(Rig.op(13, row[0], row[1], 3, Rig.behind(0))).with(8, 0x700).write(0x700, row[2]).flags(row[3]);
+            Rig rig = new Rig(Rig.op(13, row[0], row[1], 3, Rig.behind(0))).with(8, 0x700).write(0x700, row[2])
+                    .flags(row[3]);
             check.equal("in memory", 0, rig.step());
             check.equal("kind " + row[0] + " left " + row[1], row[4], rig.word(0x700));
             check.equal("flags", row[5], rig.flags());

@@ -7,21 +7,29 @@ public final class ExceptionEdgesTest {
         Check check = new Check("ExceptionEdgesTest");
         check.sentence(EXCEPTIONS, "24 + the level INTERRUPT", ExceptionEdgesTest::interrupts);
         check.sentence(EXCEPTIONS, "32 .. 47 CALLS of the supervisor.", ExceptionEdgesTest::calls);
-        check.sentence(EXCEPTIONS, "S becomes 1, T 0, and for an interrupt the MASK the level", ExceptionEdgesTest::status);
-        check.sentence(EXCEPTIONS, "a long PC, that of the instruction for 2, 3, 4, 8, 10, 11, that of the next one for the others",
+        check.sentence(EXCEPTIONS, "S becomes 1, T 0, and for an interrupt the MASK the level",
+                ExceptionEdgesTest::status);
+        check.sentence(EXCEPTIONS,
+                "a long PC, that of the instruction for 2, 3, 4, 8, 10, 11, that of the next one for the others",
                 ExceptionEdgesTest::pushedPc);
         check.sentence(EXCEPTIONS, "the STATUS as it was before this exception", ExceptionEdgesTest::pushedStatus);
-        check.sentence(EXCEPTIONS, "the first word of the instruction that was begun latest", ExceptionEdgesTest::firstWord);
-        check.sentence(EXCEPTIONS, "(0 if it could not be read, or there was none since reset())", ExceptionEdgesTest::noFirstWord);
+        check.sentence(EXCEPTIONS, "the first word of the instruction that was begun latest",
+                ExceptionEdgesTest::firstWord);
+        check.sentence(EXCEPTIONS, "(0 if it could not be read, or there was none since reset())",
+                ExceptionEdgesTest::noFirstWord);
         check.sentence(EXCEPTIONS, "the address of the access (modulo 2^24, a long)", ExceptionEdgesTest::address);
-        check.sentence(EXCEPTIONS, "1 if it read, 2 more if that was a word of an instruction, 4 more if S was 1 before.",
+        check.sentence(EXCEPTIONS,
+                "1 if it read, 2 more if that was a word of an instruction, 4 more if S was 1 before.",
                 ExceptionEdgesTest::way);
-        check.sentence(EXCEPTIONS, "Then the PC becomes the long that is read at 4 * vector.", ExceptionEdgesTest::handlers);
+        check.sentence(EXCEPTIONS, "Then the PC becomes the long that is read at 4 * vector.",
+                ExceptionEdgesTest::handlers);
         check.sentence(EXCEPTIONS, "If an access in that is an error, all registers are as before this exception",
                 ExceptionEdgesTest::registersAsBefore);
         check.sentence(EXCEPTIONS, "of group 0: the machine is HALTED", ExceptionEdgesTest::halted);
-        check.sentence(EXCEPTIONS, "otherwise the error's own exception is worked off instead, "
-                + "the PC being the one that this one pushes or would have pushed.", ExceptionEdgesTest::instead);
+        check.sentence(EXCEPTIONS,
+                "otherwise the error's own exception is worked off instead, the PC being the one that this one "
+                + "pushes or would have pushed.",
+                ExceptionEdgesTest::instead);
         check.end();
     }
 
@@ -151,7 +159,8 @@ public final class ExceptionEdgesTest {
     }
 
     private static void address(Check check) {
-        int[][] rows = {{0x12000BB8, 0x0BB8}, {0xFFFFFFFE, 0xFFFFFE}, {0x00FFFFFE, 0xFFFFFE}, {2048, 2048}, {0x81000301, 0x301},
+        int[][] rows = {{0x12000BB8, 0x0BB8}, {0xFFFFFFFE, 0xFFFFFE}, {0x00FFFFFE, 0xFFFFFE}, {2048, 2048},
+            {0x81000301, 0x301},
             {1, 1}, {0x7F800000, 0x800000}};
         for (int[] row : rows) {
             Rig rig = new Rig(Rig.move(Rig.WORD, Rig.at(0), Rig.d(0))).with(8, row[0]);
@@ -249,7 +258,8 @@ public final class ExceptionEdgesTest {
             check.equal("counted", room < 14 ? 0 : 1, rig.m.counted(3));
             check.equal("not the second error", 0, rig.m.counted(2));
             check.equal("A0 as before the instruction", 0x301, rig.get(8));
-            check.equal("the PC that was pushed stays", room >= pushes[0] ? Rig.START : 0, rig.longAt(0x400 + room - 4));
+            check.equal("the PC that was pushed stays", room >= pushes[0] ? Rig.START : 0,
+                    rig.longAt(0x400 + room - 4));
             check.equal("the STATUS that was pushed stays", room >= pushes[1] ? 0x2710 : 0, rig.word(0x400 + room - 6));
             check.equal("the first word", room >= pushes[2] ? word : 0, rig.word(0x400 + room - 8));
             check.equal("the address", room >= pushes[3] ? 0x301 : 0, rig.longAt(0x400 + room - 12));
@@ -273,6 +283,7 @@ public final class ExceptionEdgesTest {
         Rig error = new Rig().with(15, 4100).with(Rig.PC, 0x43000801);
         check.equal("an error", 3, error.step());
         check.equal("pushes once", 1, error.m.device(4));
-        check.equal("neither is counted", 0, rig.m.counted(33) + rig.m.counted(2) + illegal.m.counted(4) + illegal.m.counted(2));
+        check.equal("neither is counted", 0,
+                rig.m.counted(33) + rig.m.counted(2) + illegal.m.counted(4) + illegal.m.counted(2));
     }
 }

@@ -8,20 +8,31 @@ public final class FlagsEdgesTest {
         Check check = new Check("FlagsEdgesTest");
         check.sentence(FLAGS, "TESTING a number of a size: N its highest bit, Z whether it is 0, V and C 0.",
                 FlagsEdgesTest::testing);
-        check.sentence(FLAGS, "ADDING: N and Z likewise of the sum, V whether the sum of numbers with signs does not fit, "
-                + "C whether that of those without does not; X like C.", FlagsEdgesTest::adding);
+        check.sentence(FLAGS,
+                "ADDING: N and Z likewise of the sum, V whether the sum of numbers with signs does not fit, C "
+                + "whether that of those without does not; X like C.",
+                FlagsEdgesTest::adding);
         check.sentence(FLAGS, "TAKING AWAY likewise, C for a borrow.", FlagsEdgesTest::takingAway);
-        check.sentence(FLAGS, "COMPARING b with a takes a away from b, but keeps only N, Z, V, C.", FlagsEdgesTest::comparing);
+        check.sentence(FLAGS, "COMPARING b with a takes a away from b, but keeps only N, Z, V, C.",
+                FlagsEdgesTest::comparing);
         check.sentence(FLAGS, "IN CHAIN: X is added, or taken away, too", FlagsEdgesTest::inChain);
         check.sentence(FLAGS, "and Z stays as it was where the result is 0.", FlagsEdgesTest::chainOfZero);
-        check.sentence(FLAGS, "s = (a & 15) + (b & 15) + X, if that is above 9 6 more, + (a & 240) + (b & 240), "
-                + "and if that is above 159 96 more, and X and C become 1, else 0", FlagsEdgesTest::addingInTens);
-        check.sentence(FLAGS, "s = (b & 15) - (a & 15) - X, if below 0 6 less, + (b & 240) - (a & 240), "
-                + "and if that is below 0 96 less, and X and C become 1, else 0.", FlagsEdgesTest::takingAwayInTens);
-        check.sentence(FLAGS, "The byte of s is the result; N its highest bit, V 0, and Z becomes 0 if it is not 0, else it stays.",
+        check.sentence(FLAGS,
+                "s = (a & 15) + (b & 15) + X, if that is above 9 6 more, + (a & 240) + (b & 240), and if that is "
+                + "above 159 96 more, and X and C become 1, else 0",
+                FlagsEdgesTest::addingInTens);
+        check.sentence(FLAGS,
+                "s = (b & 15) - (a & 15) - X, if below 0 6 less, + (b & 240) - (a & 240), and if that is below 0 "
+                + "96 less, and X and C become 1, else 0.",
+                FlagsEdgesTest::takingAwayInTens);
+        check.sentence(FLAGS,
+                "The byte of s is the result; N its highest bit, V 0, and Z becomes 0 if it is not 0, else it "
+                + "stays.",
                 FlagsEdgesTest::resultInTens);
-        check.sentence("Promise 6, Terms, CONDITIONS", "0 always, 1 never, 2 neither C nor Z, 3 C or Z, 4 not C, 5 C, 6 not Z, 7 Z, "
-                + "8 not V, 9 V, 10 not N, 11 N, 12 N as V, 13 not 12, 14 12 and not Z, 15 not 14.", FlagsEdgesTest::conditions);
+        check.sentence("Promise 6, Terms, CONDITIONS",
+                "0 always, 1 never, 2 neither C nor Z, 3 C or Z, 4 not C, 5 C, 6 not Z, 7 Z, 8 not V, 9 V, 10 "
+                + "not N, 11 N, 12 N as V, 13 not 12, 14 12 and not Z, 15 not 14.",
+                FlagsEdgesTest::conditions);
         check.end();
     }
 
@@ -81,7 +92,8 @@ public final class FlagsEdgesTest {
                         rig.step();
                         int due = sumFlags(b, a, 0, sign, size);
                         int mask = (int) unsigned(-1, size);
-                        String text = what + " " + Integer.toHexString(b) + ", " + Integer.toHexString(a) + ", size " + size;
+                        String text = what + " " + Integer.toHexString(b) + ", " + Integer.toHexString(a)
+                                + ", size " + size;
                         check.equal(text + ": flags", compares ? due & ~Rig.X | before & Rig.X : due, rig.flags());
                         check.equal(text + ": result", compares ? b : b & ~mask | b + sign * a & mask, rig.get(0));
                     }

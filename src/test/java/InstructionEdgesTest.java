@@ -5,14 +5,20 @@ public final class InstructionEdgesTest {
 
     public static void main(String[] args) {
         Check check = new Check("InstructionEdgesTest");
-        check.sentence(INSTRUCTION, "all its words are read by accesses of words, after each of which the PC grows by 2.",
+        check.sentence(INSTRUCTION,
+                "all its words are read by accesses of words, after each of which the PC grows by 2.",
                 InstructionEdgesTest::words);
-        check.sentence(INSTRUCTION, "It is ILLEGAL or not by its first word alone", InstructionEdgesTest::firstWordAlone);
+        check.sentence(INSTRUCTION, "It is ILLEGAL or not by its first word alone",
+                InstructionEdgesTest::firstWordAlone);
         check.sentence(INSTRUCTION, "then PRIVILEGED or not, if S is 0", InstructionEdgesTest::privileged);
-        check.sentence(INSTRUCTION, "in both cases it has an exception and does nothing.", InstructionEdgesTest::doesNothing);
-        check.sentence(INSTRUCTION, "If an access in it is an error, all registers (PC, STATUS, OTHER too) are as before the instruction",
+        check.sentence(INSTRUCTION, "in both cases it has an exception and does nothing.",
+                InstructionEdgesTest::doesNothing);
+        check.sentence(INSTRUCTION,
+                "If an access in it is an error, all registers (PC, STATUS, OTHER too) are as before the "
+                + "instruction",
                 InstructionEdgesTest::registersAsBefore);
-        check.sentence(INSTRUCTION, "while what was written, said or read from devices stays so", InstructionEdgesTest::whatStays);
+        check.sentence(INSTRUCTION, "while what was written, said or read from devices stays so",
+                InstructionEdgesTest::whatStays);
         check.sentence(INSTRUCTION, "then the error has an exception.", InstructionEdgesTest::errorHasAnException);
         check.sentence(INSTRUCTION, "If T was 1 before and it was done", InstructionEdgesTest::traced);
         check.sentence(INSTRUCTION, "or had an exception of group 2, it has the exception TRACE behind it",
@@ -51,7 +57,8 @@ public final class InstructionEdgesTest {
     }
 
     private static void firstWordAlone(Check check) {
-        for (int word : new int[] {0x3FFF, 0x3734, Rig.move(Rig.BYTE, Rig.NUMBER, Rig.a(0)), Rig.move(Rig.LONG, Rig.NUMBER, Rig.NUMBER)}) {
+        for (int word : new int[] {0x3FFF, 0x3734, Rig.move(Rig.BYTE, Rig.NUMBER, Rig.a(0)), Rig.move(Rig.LONG,
+                Rig.NUMBER, Rig.NUMBER)}) {
             Rig rig = new Rig().write(2046, word).with(Rig.PC, 2046);
             check.equal("there is no other word to be read, " + word, 4, rig.step());
             check.equal("PC of it", 2046, rig.longAt(Rig.STACK - 4));
@@ -146,7 +153,8 @@ public final class InstructionEdgesTest {
         check.equal("the third of three longs is open", 2, written.step());
         check.equal("the first one stays written", 0x11, written.longAt(2040));
         check.equal("the second one, too", 0x22, written.longAt(2044));
-        Rig said = new Rig(Rig.op(12, 0, 1, 3, Rig.a(0)), 0).with(8, 4096).with(0, 0x41424344).user().with(Rig.STATUS, 0x2700);
+        Rig said = new Rig(Rig.op(12, 0, 1, 3, Rig.a(0)), 0).with(8, 4096).with(0, 0x41424344).user()
+                .with(Rig.STATUS, 0x2700);
         check.equal("four bytes from the port on", 0, said.step());
         check.equal("one is said", 0x41, said.m.said(0));
         said = new Rig(Rig.op(12, 0, 1, 3, Rig.a(0)), 0).with(8, 4100).with(0, 0x06424344);
@@ -218,7 +226,8 @@ public final class InstructionEdgesTest {
 
     private static void tracedBehindGroupTwo(Check check) {
         int[][] rows = {
-            {0x3700, 32}, {0x370F, 47}, {Rig.op(8, 0, 0, 3, Rig.d(1)), 5}, {Rig.op(14, 0, 1, 1, Rig.d(1)), 6}, {0x3736, 7},
+            {0x3700, 32}, {0x370F, 47}, {Rig.op(8, 0, 0, 3, Rig.d(1)), 5}, {Rig.op(14, 0, 1, 1, Rig.d(1)), 6},
+            {0x3736, 7},
         };
         for (int[] row : rows) {
             Rig rig = new Rig(row[0]).with(0, 0x7FFF).with(Rig.STATUS, 0xA702);

@@ -39,7 +39,8 @@ public final class MoveTest {
     }
 
     private static void quick(Check check) {
-        Rig rig = new Rig(Rig.op(14, 5, 0, 2, 0), Rig.op(14, 6, 0, 0, 0), Rig.op(14, 7, 0, 1, 63)).with(6, -1).flags(31);
+        Rig rig = new Rig(Rig.op(14, 5, 0, 2, 0), Rig.op(14, 6, 0, 0, 0), Rig.op(14, 7, 0, 1, 63)).with(6, -1)
+                .flags(31);
         rig.step();
         check.equal("EXTENDED to a long", -128, rig.get(5));
         check.equal("below 0", Rig.X | Rig.N, rig.flags());

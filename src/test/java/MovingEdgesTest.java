@@ -8,10 +8,13 @@ public final class MovingEdgesTest {
 
     public static void main(String[] args) {
         Check check = new Check("MovingEdgesTest");
-        check.sentence(MOVES, "ANY e is moved to the OPEN ANY operand of bits 6 .. 11, and TESTED", MovingEdgesTest::moved);
+        check.sentence(MOVES, "ANY e is moved to the OPEN ANY operand of bits 6 .. 11, and TESTED",
+                MovingEdgesTest::moved);
         check.sentence(MOVES, "EXTENDED to an A, without flags.", MovingEdgesTest::movedToAddress);
-        check.sentence(THREE, "c 0 .. 2 (size c): OPEN DATA e becomes 0 - e IN CHAIN.", MovingEdgesTest::negatedInChain);
-        check.sentence(THREE, "4 .. 6 (size c - 4): OPEN DATA e becomes 0, TESTED, not read.", MovingEdgesTest::becomesZero);
+        check.sentence(THREE, "c 0 .. 2 (size c): OPEN DATA e becomes 0 - e IN CHAIN.",
+                MovingEdgesTest::negatedInChain);
+        check.sentence(THREE, "4 .. 6 (size c - 4): OPEN DATA e becomes 0, TESTED, not read.",
+                MovingEdgesTest::becomesZero);
         check.sentence(THREE, "8 .. 10: 0 - e.", MovingEdgesTest::negated);
         check.sentence(THREE, "12 .. 14: e with all bits turned, TESTED.", MovingEdgesTest::turned);
         check.sentence(THREE, "16 .. 18: OPEN DATA e is TESTED.", MovingEdgesTest::tested);
@@ -19,36 +22,54 @@ public final class MovingEdgesTest {
         check.sentence(THREE, "7: the FLAGS become the lowest bits of DATA e, a word", MovingEdgesTest::flagsBecome);
         check.sentence(THREE, "11: the STATUS becomes this word, PRIVILEGED.", MovingEdgesTest::statusBecomes);
         check.sentence(THREE, "15: OPEN DATA e, a byte, becomes 0 - e IN TENS.", MovingEdgesTest::negatedInTens);
-        check.sentence(THREE, "19: OPEN DATA e, a byte, is TESTED, then its highest bit set.", MovingEdgesTest::testedAndSet);
-        check.sentence(THREE, "20, M 0: the words of Dr change places, TESTED as a long", MovingEdgesTest::wordsChangePlaces);
+        check.sentence(THREE, "19: OPEN DATA e, a byte, is TESTED, then its highest bit set.",
+                MovingEdgesTest::testedAndSet);
+        check.sentence(THREE, "20, M 0: the words of Dr change places, TESTED as a long",
+                MovingEdgesTest::wordsChangePlaces);
         check.sentence(THREE, "CONTROL e: its ADDRESS is pushed.", MovingEdgesTest::addressPushed);
         check.sentence(THREE, "21, 22, M 0: Dr's byte is EXTENDED to a word, or its word to a long, TESTED as such.",
                 MovingEdgesTest::extended);
-        check.sentence(THREE, "26: CONTROL e: the PC (behind the instruction) is pushed, and becomes the ADDRESS; 27: without pushing.",
+        check.sentence(THREE,
+                "26: CONTROL e: the PC (behind the instruction) is pushed, and becomes the ADDRESS; 27: without "
+                + "pushing.",
                 MovingEdgesTest::callsAndJumps);
         check.sentence(LAST, "28, by bits 0 .. 5: 0 .. 15 exception 32 + them.", MovingEdgesTest::calls);
-        check.sentence(LAST, "16 + r: Ar as it was is pushed, Ar becomes A7, then A7 grows by the next word (read first) EXTENDED.",
+        check.sentence(LAST,
+                "16 + r: Ar as it was is pushed, Ar becomes A7, then A7 grows by the next word (read first) "
+                + "EXTENDED.",
                 MovingEdgesTest::link);
         check.sentence(LAST, "24 + r: A7 becomes Ar, a long is pulled, Ar becomes that.", MovingEdgesTest::unlink);
-        check.sentence(LAST, "32 + r: the OTHER becomes Ar, 40 + r: Ar the OTHER, both PRIVILEGED.", MovingEdgesTest::other);
+        check.sentence(LAST, "32 + r: the OTHER becomes Ar, 40 + r: Ar the OTHER, both PRIVILEGED.",
+                MovingEdgesTest::other);
         check.sentence(LAST, "48, PRIVILEGED: timer and its level become 0, it asks no more.", MovingEdgesTest::quiet);
         check.sentence(LAST, "49: nothing.", MovingEdgesTest::nothing);
-        check.sentence(LAST, "50, PRIVILEGED: the STATUS becomes the next word, and it is STOPPED.", MovingEdgesTest::stop);
-        check.sentence(LAST, "51, PRIVILEGED: a word is pulled, then a long; the STATUS becomes the word, then the PC the long.",
+        check.sentence(LAST, "50, PRIVILEGED: the STATUS becomes the next word, and it is STOPPED.",
+                MovingEdgesTest::stop);
+        check.sentence(LAST,
+                "51, PRIVILEGED: a word is pulled, then a long; the STATUS becomes the word, then the PC the "
+                + "long.",
                 MovingEdgesTest::returnFromException);
         check.sentence(LAST, "53: the PC is pulled.", MovingEdgesTest::returns);
         check.sentence(LAST, "54: exception 7 if V is 1.", MovingEdgesTest::overflow);
         check.sentence(LAST, "55: a word is pulled, then the PC; the FLAGS become the word's lowest bits.",
                 MovingEdgesTest::returnWithFlags);
-        check.sentence(MANY, "for each bit k of it that is 1, from 0 on, register k (D0 .. D7, A0 .. A7) is written, "
-                + "one behind the other from the ADDRESS on.", MovingEdgesTest::storeMany);
-        check.sentence(MANY, "With M 4: for each bit k, from 0 on, register 15 - k is written, each before the one before, "
-                + "from Ar on; Ar becomes the last place (registers are written as they were before the instruction).",
+        check.sentence(MANY,
+                "for each bit k of it that is 1, from 0 on, register k (D0 .. D7, A0 .. A7) is written, one "
+                + "behind the other from the ADDRESS on.",
+                MovingEdgesTest::storeMany);
+        check.sentence(MANY,
+                "With M 4: for each bit k, from 0 on, register 15 - k is written, each before the one before, "
+                + "from Ar on; Ar becomes the last place (registers are written as they were before the "
+                + "instruction).",
                 MovingEdgesTest::storeManyBefore);
-        check.sentence(MANY, "LOAD MANY, CONTROL e or M 3: for each bit k, from 0 on, register k becomes what is read, words EXTENDED",
+        check.sentence(MANY,
+                "LOAD MANY, CONTROL e or M 3: for each bit k, from 0 on, register k becomes what is read, words "
+                + "EXTENDED",
                 MovingEdgesTest::loadMany);
-        check.sentence(MANY, "with M 3 Ar becomes the place behind the last one at the end.", MovingEdgesTest::loadManyBehind);
-        check.sentence("Promise 6, Terms, OPERANDS", "Whatever is not told below, or has an operand that is not of the kind that is told, is ILLEGAL.",
+        check.sentence(MANY, "with M 3 Ar becomes the place behind the last one at the end.",
+                MovingEdgesTest::loadManyBehind);
+        check.sentence("Promise 6, Terms, OPERANDS",
+                "Whatever is not told below, or has an operand that is not of the kind that is told, is ILLEGAL.",
                 MovingEdgesTest::illegal);
         check.end();
     }
@@ -58,10 +79,12 @@ public final class MovingEdgesTest {
             int top = 1 << (8 << size) - 1;
             int[][] rows = {{0, Rig.Z}, {1, 0}, {top - 1, 0}, {top, Rig.N}, {-1, Rig.N}};
             for (int[] row : rows) {
-                Rig rig = new Rig(Rig.move(size, Rig.d(1), Rig.at(0))).with(1, row[0]).with(8, 0x700).flags(Rig.X | Rig.V | Rig.C);
+                Rig rig = new Rig(Rig.move(size, Rig.d(1), Rig.at(0))).with(1, row[0]).with(8, 0x700)
+                        .flags(Rig.X | Rig.V | Rig.C);
                 check.equal("answer", 0, rig.step());
                 int got = size == 0 ? rig.m.memory(0x700) : size == 1 ? rig.word(0x700) : rig.longAt(0x700);
-                check.equal("moved " + row[0] + ", size " + size, size == 2 ? row[0] : row[0] & (1 << (8 << size)) - 1, got);
+                check.equal("moved " + row[0] + ", size " + size,
+                        size == 2 ? row[0] : row[0] & (1 << (8 << size)) - 1, got);
                 check.equal("TESTED, X stays", row[1] | Rig.X, rig.flags());
             }
         }
@@ -96,14 +119,16 @@ public final class MovingEdgesTest {
 
     private static void negatedInChain(Check check) {
         single(check, Rig.three(0, Rig.d(0)), new int[][] {
-            {0x1100, 4, 0x1100, 4}, {0x1100, 0, 0x1100, 0}, {0x1100, 20, 0x11FF, 25}, {0x80, 0, 0x80, 27}, {0x80, 16, 0x7F, 17},
+            {0x1100, 4, 0x1100, 4}, {0x1100, 0, 0x1100, 0}, {0x1100, 20, 0x11FF, 25}, {0x80, 0, 0x80, 27},
+            {0x80, 16, 0x7F, 17},
             {0xFF, 20, 0x00, 21}, {0xFF, 16, 0x00, 17}, {1, 31, 0xFE, 25}, {0x7F, 16, 0x80, 25},
         });
         single(check, Rig.three(1, Rig.d(0)), new int[][] {
             {0x110000, 4, 0x110000, 4}, {0x8000, 0, 0x8000, 27}, {0x8000, 16, 0x7FFF, 17}, {0xFFFF, 20, 0, 21},
         });
         single(check, Rig.three(2, Rig.d(0)), new int[][] {
-            {0, 4, 0, 4}, {0, 16, -1, 25}, {0x80000000, 0, 0x80000000, 27}, {0x80000000, 16, 0x7FFFFFFF, 17}, {-1, 20, 0, 21},
+            {0, 4, 0, 4}, {0, 16, -1, 25}, {0x80000000, 0, 0x80000000, 27}, {0x80000000, 16, 0x7FFFFFFF, 17},
+            {-1, 20, 0, 21},
         });
     }
 
@@ -132,13 +157,16 @@ public final class MovingEdgesTest {
     }
 
     private static void turned(Check check) {
-        single(check, Rig.three(12, Rig.d(0)), new int[][] {{0x11FF, 31, 0x1100, 20}, {0, 19, 0xFF, 24}, {0x80, 3, 0x7F, 0}});
+        single(check, Rig.three(12, Rig.d(0)), new int[][] {{0x11FF, 31, 0x1100, 20}, {0, 19, 0xFF, 24},
+            {0x80, 3, 0x7F, 0}});
         single(check, Rig.three(13, Rig.d(0)), new int[][] {{0x11FFFF, 31, 0x110000, 20}, {0x7FFF, 3, 0x8000, 8}});
-        single(check, Rig.three(14, Rig.d(0)), new int[][] {{-1, 31, 0, 20}, {0, 3, -1, 8}, {0x80000000, 3, 0x7FFFFFFF, 0}});
+        single(check, Rig.three(14, Rig.d(0)), new int[][] {{-1, 31, 0, 20}, {0, 3, -1, 8},
+            {0x80000000, 3, 0x7FFFFFFF, 0}});
     }
 
     private static void tested(Check check) {
-        single(check, Rig.three(16, Rig.d(0)), new int[][] {{0x1100, 31, 0x1100, 20}, {0x80, 3, 0x80, 8}, {0x7F, 31, 0x7F, 16}});
+        single(check, Rig.three(16, Rig.d(0)), new int[][] {{0x1100, 31, 0x1100, 20}, {0x80, 3, 0x80, 8},
+            {0x7F, 31, 0x7F, 16}});
         single(check, Rig.three(17, Rig.d(0)), new int[][] {{0x110000, 3, 0x110000, 4}, {0x8000, 3, 0x8000, 8}});
         single(check, Rig.three(18, Rig.d(0)), new int[][] {{0, 3, 0, 4}, {0x80000000, 3, 0x80000000, 8}});
         Rig rig = new Rig(Rig.three(17, Rig.SHORT_PLACE), 0x10);
@@ -185,7 +213,8 @@ public final class MovingEdgesTest {
     }
 
     private static void negatedInTens(Check check) {
-        int[][] rows = {{0x00, 0, 0x00, 0}, {0x00, 4, 0x00, 4}, {0x00, 20, 0x99, 25}, {0x01, 6, 0x99, 25}, {0x99, 16, 0x00, 17},
+        int[][] rows = {{0x00, 0, 0x00, 0}, {0x00, 4, 0x00, 4}, {0x00, 20, 0x99, 25}, {0x01, 6, 0x99, 25},
+            {0x99, 16, 0x00, 17},
             {0x99, 20, 0x00, 21}, {0x10, 0, 0x90, 25}, {0x50, 2, 0x50, 17}};
         for (int[] row : rows) {
             single(check, Rig.three(15, Rig.d(0)), new int[][] {{0x1100 | row[0], row[1], 0x1100 | row[2], row[3]}});
@@ -204,7 +233,8 @@ public final class MovingEdgesTest {
 
     private static void wordsChangePlaces(Check check) {
         single(check, Rig.three(20, Rig.d(0)), new int[][] {
-            {0x12348000, 19, 0x80001234, 24}, {0x80000001, 3, 0x00018000, 0}, {0, 31, 0, 20}, {0x0000FFFF, 0, 0xFFFF0000, 8},
+            {0x12348000, 19, 0x80001234, 24}, {0x80000001, 3, 0x00018000, 0}, {0, 31, 0, 20},
+            {0x0000FFFF, 0, 0xFFFF0000, 8},
             {0xFFFF0000, 31, 0x0000FFFF, 16},
         });
     }
@@ -448,7 +478,8 @@ public final class MovingEdgesTest {
             Rig rig = numbered(Rig.three(25, Rig.SHORT_PLACE), 1 << k, 0x700).write(0x700, 0x8765, 0x4321);
             rig.step();
             for (int what = 0; what < 15; what++) {
-                check.equal("bit " + k + ", register " + what, what == k ? 0x87654321 : 0x10101 * (what + 1), rig.get(what));
+                check.equal("bit " + k + ", register " + what, what == k ? 0x87654321 : 0x10101 * (what + 1),
+                        rig.get(what));
             }
             check.equal("bit " + k + ", A7", k == 15 ? 0x87654321 : Rig.STACK, rig.get(15));
             for (int word : new int[] {0x7FFF, 0x8000}) {

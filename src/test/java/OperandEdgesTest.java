@@ -7,15 +7,19 @@ public final class OperandEdgesTest {
     public static void main(String[] args) {
         Check check = new Check("OperandEdgesTest");
         check.sentence(OPERANDS, "M 0: Dr. 1: Ar. 2: what is at Ar.", OperandEdgesTest::registers);
-        check.sentence(OPERANDS, "3: at Ar, which then grows by the size (1, 2, 4; a byte's is 2 for A7).", OperandEdgesTest::behind);
+        check.sentence(OPERANDS, "3: at Ar, which then grows by the size (1, 2, 4; a byte's is 2 for A7).",
+                OperandEdgesTest::behind);
         check.sentence(OPERANDS, "4: at Ar, after that became less by as much.", OperandEdgesTest::before);
         check.sentence(OPERANDS, "5: at Ar + the next word EXTENDED.", OperandEdgesTest::fromAddress);
         check.sentence(OPERANDS, "its lowest byte EXTENDED + the register i >>> 12 (0 .. 7 D0 .. D7, 8 .. 15 A0 .. A7)",
                 OperandEdgesTest::indexRegisters);
-        check.sentence(OPERANDS, "as a whole if bit 11 is 1, else its lowest word EXTENDED.", OperandEdgesTest::indexSizes);
+        check.sentence(OPERANDS, "as a whole if bit 11 is 1, else its lowest word EXTENDED.",
+                OperandEdgesTest::indexSizes);
         check.sentence(OPERANDS, "7: r 0 at the next word EXTENDED", OperandEdgesTest::shortPlace);
         check.sentence(OPERANDS, "r 1 at the next long (two words)", OperandEdgesTest::longPlace);
-        check.sentence(OPERANDS, "r 2 at the PC + the next word EXTENDED, and r 3 at the PC + an INDEX, the PC being the place of that word",
+        check.sentence(OPERANDS,
+                "r 2 at the PC + the next word EXTENDED, and r 3 at the PC + an INDEX, the PC being the place of "
+                + "that word",
                 OperandEdgesTest::fromPc);
         check.sentence(OPERANDS, "r 4 the number that the next word (for a byte its lower half), or the next long, is.",
                 OperandEdgesTest::number);
@@ -28,8 +32,9 @@ public final class OperandEdgesTest {
         check.sentence(OPERANDS, "OPEN in front of these: not M 7 with r above 1.", OperandEdgesTest::open);
         check.sentence(OPERANDS, "Numbers that stand in words of their own come before the words of operands.",
                 OperandEdgesTest::numbersFirst);
-        check.sentence(OPERANDS, "A source is found (its words read, Ar changed) and read first, "
-                + "then what is changed (or what it is COMPARED with) is found, read where it matters, and written.",
+        check.sentence(OPERANDS,
+                "A source is found (its words read, Ar changed) and read first, then what is changed (or what it "
+                + "is COMPARED with) is found, read where it matters, and written.",
                 OperandEdgesTest::order);
         check.end();
     }
@@ -58,7 +63,8 @@ public final class OperandEdgesTest {
         int[] there = {0xA1, 0xA1A2, 0xA1A2A3A4};
         for (int size = 0; size < 3; size++) {
             for (int r = 0; r < 8; r++) {
-                Rig rig = new Rig(Rig.move(size, Rig.behind(r), Rig.d(7))).with(8 + r, 0x700).write(0x700, 0xA1A2, 0xA3A4);
+                Rig rig = new Rig(Rig.move(size, Rig.behind(r), Rig.d(7))).with(8 + r, 0x700)
+                        .write(0x700, 0xA1A2, 0xA3A4);
                 check.equal("answer", 0, rig.step());
                 check.equal("read where it was, size " + size + " A" + r, there[size], rig.get(7));
                 check.equal("grown, size " + size + " A" + r, 0x700 + size(size, r), rig.get(8 + r));
@@ -141,6 +147,11 @@ public final class OperandEdgesTest {
                 Rig whole = new Rig(ADDRESS_TO_A2 | Rig.indexed(0), k << 12 | 0x800).with(8, 0x500).with(k, row[0]);
                 whole.step();
                 check.equal("as a whole", 0x500 + row[0], whole.get(10));
+                for (int low = 1; low < 128; low += low) {
+                    Rig bit = new Rig(ADDRESS_TO_A2 | Rig.indexed(0), k << 12 | low).with(8, 0x500).with(k, row[0]);
+                    bit.step();
+                    check.equal("its word, no other bit tells", 0x500 + row[1] + low, bit.get(10));
+                }
             }
         }
     }
@@ -198,7 +209,8 @@ public final class OperandEdgesTest {
             Rig rig = new Rig(Rig.move(Rig.BYTE, Rig.NUMBER, Rig.d(0)), row[0]).with(0, 0x11111111);
             rig.step();
             check.equal("a byte of " + row[0], 0x11111100 | row[1], rig.get(0));
-            check.equal("N and Z of the lower half", (row[1] > 127 ? Rig.N : 0) | (row[1] == 0 ? Rig.Z : 0), rig.flags());
+            check.equal("N and Z of the lower half", (row[1] > 127 ? Rig.N : 0) | (row[1] == 0 ? Rig.Z : 0),
+                    rig.flags());
             check.equal("one word", Rig.START + 4, rig.pc());
         }
         Rig word = new Rig(Rig.move(Rig.WORD, Rig.NUMBER, Rig.d(0)), 0x8001);

@@ -87,7 +87,8 @@ public final class OperandTest {
             {0x1001, 1, 0x12340020, 0x621}, // its lowest bit does not tell that it is a whole
         };
         for (int[] row : rows) {
-            Rig rig = new Rig(Rig.move(Rig.BYTE, Rig.indexed(4), Rig.d(0)), row[0]).with(12, 0x600).with(row[1], row[2]);
+            Rig rig = new Rig(Rig.move(Rig.BYTE, Rig.indexed(4), Rig.d(0)), row[0]).with(12, 0x600)
+                    .with(row[1], row[2]);
             rig.write(row[3] & ~1, 0x7777);
             done(check, "index " + row[0], rig);
             check.equal("what is there", 0x77, rig.get(0) & 255);

@@ -12,7 +12,8 @@ public final class SizesEdgesTest {
         Check check = new Check("SizesEdgesTest");
         check.sentence(SIZES, "BYTES, WORDS and LONGS have 8, 16 and 32 bits", SizesEdgesTest::sizes);
         check.sentence(SIZES, "in memory the highest byte is first.", SizesEdgesTest::highestFirst);
-        check.sentence(SIZES, "EXTENDED: a byte or word with its highest bit before it, as a long.", SizesEdgesTest::extended);
+        check.sentence(SIZES, "EXTENDED: a byte or word with its highest bit before it, as a long.",
+                SizesEdgesTest::extended);
         check.sentence(SIZES, "are longs and count as such (wrapping)", SizesEdgesTest::wrapping);
         check.sentence(SIZES, "of a D a byte or word is its lowest one, the rest of it stays when that is written.",
                 SizesEdgesTest::restStays);
@@ -20,7 +21,8 @@ public final class SizesEdgesTest {
         check.sentence(SIZES, "To PUSH a word or long: A7 becomes less by 2 or 4, then it is written there",
                 SizesEdgesTest::pushing);
         check.sentence(SIZES, "to PULL one: it is read there, then A7 grows.", SizesEdgesTest::pulling);
-        check.sentence(STATUS, "bit 15 T, 13 S (the supervisor's state is on), 8 .. 10 the MASK, 4 X, 3 N, 2 Z, 1 V, 0 C",
+        check.sentence(STATUS,
+                "bit 15 T, 13 S (the supervisor's state is on), 8 .. 10 the MASK, 4 X, 3 N, 2 Z, 1 V, 0 C",
                 SizesEdgesTest::statusBits);
         check.sentence(STATUS, "its other bits are 0 always.", SizesEdgesTest::otherBits);
         check.sentence(STATUS, "When S changes, A7 and the OTHER change places.", SizesEdgesTest::places);
@@ -112,6 +114,20 @@ public final class SizesEdgesTest {
             rig.step();
             int[] less = {0x110000FF, 0x1100FFFF, 0x10FFFFFF};
             check.equal("no borrow from the rest, size " + size, less[size], rig.get(0));
+        }
+        for (int r = 0; r < 8; r++) {
+            Rig rig = new Rig(Rig.move(Rig.BYTE, Rig.NUMBER, Rig.d(r)), 0xEE, Rig.move(Rig.WORD, Rig.NUMBER,
+                    Rig.d(r)), 0xDDEE);
+            for (int what = 0; what < 8; what++) {
+                rig.with(what, 0x11223344 + 0x01010100 * what);
+            }
+            rig.step();
+            check.equal("the rest of D" + r + " beside a byte", 0x112233EE + 0x01010100 * r, rig.get(r));
+            rig.step();
+            check.equal("the rest of D" + r + " beside a word", 0x1122DDEE + 0x01010000 * r, rig.get(r));
+            for (int what = 0; what < 8; what++) {
+                check.that("D" + what + " stays", what == r || rig.get(what) == 0x11223344 + 0x01010100 * what);
+            }
         }
     }
 

@@ -6,7 +6,8 @@ public final class StepEdgesTest {
 
     public static void main(String[] args) {
         Check check = new Check("StepEdgesTest");
-        check.sentence(STEP, "The LEVEL of now is the greater one of the one that is set and that of the timer, while it asks.",
+        check.sentence(STEP,
+                "The LEVEL of now is the greater one of the one that is set and that of the timer, while it asks.",
                 StepEdgesTest::greaterOne);
         check.sentence(STEP, "while it asks.", StepEdgesTest::whileItAsks);
         check.sentence(STEP, "If that is above the MASK", StepEdgesTest::aboveTheMask);
@@ -49,7 +50,8 @@ public final class StepEdgesTest {
         check.equal("the interrupt does not end it", 1, not.m.device(2));
         not.with(Rig.STATUS, 0x2000);
         check.equal("so it comes again", 29, not.step());
-        Rig quiet = new Rig(TO_TIMER, 1, 0x0500, 4098, Rig.move(Rig.BYTE, Rig.d(0), Rig.SHORT_PLACE), 4101, Rig.NOTHING);
+        Rig quiet = new Rig(TO_TIMER, 1, 0x0500, 4098, Rig.move(Rig.BYTE, Rig.d(0), Rig.SHORT_PLACE), 4101,
+                Rig.NOTHING);
         quiet.m.run(2);
         quiet.with(Rig.STATUS, 0x2000);
         check.equal("when it asks no more, its level does not count", 0, quiet.step());

@@ -9,35 +9,54 @@ public final class SummingEdgesTest {
     public static void main(String[] args) {
         Check check = new Check("SummingEdgesTest");
         check.sentence(SUMS, "D 1: DR and OPEN MEMORY e to e", SummingEdgesTest::toMemory);
-        check.sentence(SUMS, "M 1: what is at AR and at Ar, both with M 4, Ar first, IN CHAIN to the former.", SummingEdgesTest::chains);
-        check.sentence(SUMS, "z 3: AR and ANY e (D 0 a word, EXTENDED; 1 a long) to AR, without flags.", SummingEdgesTest::toAddress);
-        check.sentence(SUMS, "(In 5 the second one is taken away from the first, e from DR, DR from e.)", SummingEdgesTest::whichFromWhich);
-        check.sentence(SIX, "z 3: AR, as a long, with ANY e (D 0 a word, EXTENDED; 1 a long).", SummingEdgesTest::compareAddress);
-        check.sentence(SIX, "M 1: what is at AR is COMPARED with what is at Ar, both with M 3, Ar first", SummingEdgesTest::compareMemory);
+        check.sentence(SUMS, "M 1: what is at AR and at Ar, both with M 4, Ar first, IN CHAIN to the former.",
+                SummingEdgesTest::chains);
+        check.sentence(SUMS, "z 3: AR and ANY e (D 0 a word, EXTENDED; 1 a long) to AR, without flags.",
+                SummingEdgesTest::toAddress);
+        check.sentence(SUMS, "(In 5 the second one is taken away from the first, e from DR, DR from e.)",
+                SummingEdgesTest::whichFromWhich);
+        check.sentence(SIX, "z 3: AR, as a long, with ANY e (D 0 a word, EXTENDED; 1 a long).",
+                SummingEdgesTest::compareAddress);
+        check.sentence(SIX, "M 1: what is at AR is COMPARED with what is at Ar, both with M 3, Ar first",
+                SummingEdgesTest::compareMemory);
         check.sentence(SIX, "else OPEN DATA e becomes e ^ DR, TESTED.", SummingEdgesTest::exclusive);
-        check.sentence(JOINS, "z < 3, D 0: DR with DATA e to DR; D 1: DR with OPEN MEMORY e to e, both TESTED.", SummingEdgesTest::joins);
-        check.sentence(JOINS, "or with M 1 what is at AR and Ar, both with M 4, Ar first: "
-                + "7 adds, 8 takes the second away from the first, IN TENS, to the first.", SummingEdgesTest::tensInMemory);
-        check.sentence(JOINS, "7, z 1: DR and Dr, or with M 1 AR and Ar, change places; z 2, M 1: DR and Ar.", SummingEdgesTest::exchanges);
-        check.sentence(JOINS, "DR becomes its lowest word times DATA e, a word, both without signs (D 0) or with (1), TESTED as a long.",
+        check.sentence(JOINS, "z < 3, D 0: DR with DATA e to DR; D 1: DR with OPEN MEMORY e to e, both TESTED.",
+                SummingEdgesTest::joins);
+        check.sentence(JOINS,
+                "or with M 1 what is at AR and Ar, both with M 4, Ar first: 7 adds, 8 takes the second away from "
+                + "the first, IN TENS, to the first.",
+                SummingEdgesTest::tensInMemory);
+        check.sentence(JOINS, "7, z 1: DR and Dr, or with M 1 AR and Ar, change places; z 2, M 1: DR and Ar.",
+                SummingEdgesTest::exchanges);
+        check.sentence(JOINS,
+                "DR becomes its lowest word times DATA e, a word, both without signs (D 0) or with (1), TESTED "
+                + "as a long.",
                 SummingEdgesTest::products);
         check.sentence(JOINS, "if e is 0, exception 5", SummingEdgesTest::byZero);
-        check.sentence(JOINS, "if the quotient does not fit a word (of that sort), V becomes 1, C 0", SummingEdgesTest::doesNotFit);
-        check.sentence(JOINS, "otherwise DR's lowest word becomes the quotient (cut towards 0), its other one the rest, "
-                + "and the quotient is TESTED.", SummingEdgesTest::quotients);
-        check.sentence(NINE, "R, or 8 if that is 0, is ADDED (D 0) to OPEN ANY e, or TAKEN AWAY (1)", SummingEdgesTest::quick);
+        check.sentence(JOINS, "if the quotient does not fit a word (of that sort), V becomes 1, C 0",
+                SummingEdgesTest::doesNotFit);
+        check.sentence(JOINS,
+                "otherwise DR's lowest word becomes the quotient (cut towards 0), its other one the rest, and "
+                + "the quotient is TESTED.",
+                SummingEdgesTest::quotients);
+        check.sentence(NINE, "R, or 8 if that is 0, is ADDED (D 0) to OPEN ANY e, or TAKEN AWAY (1)",
+                SummingEdgesTest::quick);
         check.sentence(NINE, "for an A as a long, without flags.", SummingEdgesTest::quickToAddress);
-        check.sentence(NINE, "unless k holds, Dr's word becomes 1 less, and if it is not 65535 then, the PC p + w EXTENDED",
+        check.sentence(NINE,
+                "unless k holds, Dr's word becomes 1 less, and if it is not 65535 then, the PC p + w EXTENDED",
                 SummingEdgesTest::countDown);
-        check.sentence(NINE, "else OPEN DATA e, a byte, becomes 255 if k holds, otherwise 0 (it is not read).", SummingEdgesTest::setByCondition);
-        check.sentence("Promise 6, THE INSTRUCTIONS, 10 and 15", "10 and 15: exceptions 10 and 11.", SummingEdgesTest::notThere);
+        check.sentence(NINE, "else OPEN DATA e, a byte, becomes 255 if k holds, otherwise 0 (it is not read).",
+                SummingEdgesTest::setByCondition);
+        check.sentence("Promise 6, THE INSTRUCTIONS, 10 and 15", "10 and 15: exceptions 10 and 11.",
+                SummingEdgesTest::notThere);
         check.end();
     }
 
     private static void toMemory(Check check) {
         int[] due = {0x00FFFFFF, 0x0000FFFF, 0};
         for (int size = 0; size < 3; size++) {
-            Rig rig = new Rig(Rig.op(4, 0, 1, size, Rig.behind(0))).with(0, 1).with(8, 0x700).write(0x700, 0xFFFF, 0xFFFF);
+            Rig rig = new Rig(Rig.op(4, 0, 1, size, Rig.behind(0))).with(0, 1).with(8, 0x700)
+                    .write(0x700, 0xFFFF, 0xFFFF);
             rig.step();
             check.equal("one more than the greatest, size " + size, due[size], rig.longAt(0x700));
             check.equal("flags", Rig.X | Rig.Z | Rig.C, rig.flags());
@@ -59,7 +78,8 @@ public final class SummingEdgesTest {
                 check.equal("AR", 0x704 - (1 << size), rig.get(9));
                 check.equal("Ar", 0x714 - (1 << size), rig.get(10));
                 check.equal("the latter stays", 0x03030303, rig.longAt(0x710));
-                check.equal("to the former, group " + group + ", size " + size, due[group - 4][size], rig.longAt(0x700));
+                check.equal("to the former, group " + group + ", size " + size, due[group - 4][size],
+                        rig.longAt(0x700));
             }
         }
         Rig same = new Rig(Rig.op(5, 1, 1, Rig.BYTE, Rig.a(1))).with(9, 0x702).write(0x700, 0x0903);
@@ -98,7 +118,8 @@ public final class SummingEdgesTest {
     }
 
     private static void whichFromWhich(Check check) {
-        Rig rig = new Rig(Rig.op(5, 0, 0, Rig.BYTE, Rig.d(1)), Rig.op(5, 0, 1, Rig.BYTE, Rig.at(0)), Rig.op(5, 0, 1, Rig.BYTE, Rig.d(1)))
+        Rig rig = new Rig(Rig.op(5, 0, 0, Rig.BYTE, Rig.d(1)), Rig.op(5, 0, 1, Rig.BYTE, Rig.at(0)), Rig.op(5, 0, 1,
+                Rig.BYTE, Rig.d(1)))
                 .with(0, 9).with(1, 3).with(8, 0x700).write(0x700, 0x1000);
         rig.step();
         check.equal("e from DR", 6, rig.get(0));
@@ -160,7 +181,8 @@ public final class SummingEdgesTest {
             int mask = size == 2 ? -1 : (1 << (8 << size)) - 1;
             int[][] rows = {{-1, -1, Rig.Z}, {-1, 0, Rig.N}, {0x55555555, 0x2A2A2A2A, 0}, {0, 0, Rig.Z}};
             for (int[] row : rows) {
-                Rig rig = new Rig(Rig.op(6, 1, 1, size, Rig.d(0))).with(0, row[0]).with(1, row[1]).flags(Rig.X | Rig.V | Rig.C);
+                Rig rig = new Rig(Rig.op(6, 1, 1, size, Rig.d(0))).with(0, row[0]).with(1, row[1])
+                        .flags(Rig.X | Rig.V | Rig.C);
                 rig.step();
                 check.equal("result, size " + size, row[0] & ~mask | (row[0] ^ row[1]) & mask, rig.get(0));
                 check.equal("flags, size " + size, row[2] | Rig.X, rig.flags());
@@ -189,8 +211,10 @@ public final class SummingEdgesTest {
                     rig.write(0x700, row[0] >>> 16 & 0xFFFF, row[0] & 0xFFFF);
                     rig.step();
                     int shift = 32 - (8 << size);
-                    int inMemory = group == 7 ? row[0] & (row[1] << shift | (1 << shift) - 1) : row[0] | row[1] << shift;
-                    check.equal("to e, group " + group + ", size " + size, size == 2 ? joined : inMemory, rig.longAt(0x700));
+                    int other = row[1] << shift;
+                    int inMemory = group == 7 ? row[0] & (other | (1 << shift) - 1) : row[0] | other;
+                    check.equal("to e, group " + group + ", size " + size, size == 2 ? joined : inMemory,
+                            rig.longAt(0x700));
                 }
             }
         }
@@ -278,10 +302,13 @@ public final class SummingEdgesTest {
 
     private static void doesNotFit(Check check) {
         int[][] rows = { // D, DR, e, whether it fits
-            {0, 0xFFFF, 1, 1}, {0, 0x10000, 1, 0}, {0, 0xFFFEFFFF, 0xFFFF, 1}, {0, 0xFFFF0000, 0xFFFF, 0}, {0, -1, 0xFFFF, 0},
+            {0, 0xFFFF, 1, 1}, {0, 0x10000, 1, 0}, {0, 0xFFFEFFFF, 0xFFFF, 1}, {0, 0xFFFF0000, 0xFFFF, 0},
+            {0, -1, 0xFFFF, 0},
             {0, 0x80000000, 1, 0}, {0, 0x1FFFF, 2, 1}, {0, 0x20000, 2, 0},
-            {1, 32767, 1, 1}, {1, 32768, 1, 0}, {1, -32768, 1, 1}, {1, -32769, 1, 0}, {1, 32768, -1, 1}, {1, 32769, -1, 0},
-            {1, -32767, -1, 1}, {1, -32768, -1, 0}, {1, 0x80000000, -1, 0}, {1, 0x80000000, 0x8000, 0}, {1, 0x7FFFFFFF, 0x7FFF, 0},
+            {1, 32767, 1, 1}, {1, 32768, 1, 0}, {1, -32768, 1, 1}, {1, -32769, 1, 0}, {1, 32768, -1, 1},
+            {1, 32769, -1, 0},
+            {1, -32767, -1, 1}, {1, -32768, -1, 0}, {1, 0x80000000, -1, 0}, {1, 0x80000000, 0x8000, 0},
+            {1, 0x7FFFFFFF, 0x7FFF, 0},
             {1, 65535, 2, 1}, {1, 65536, 2, 0}, {1, -65537, 2, 1}, {1, -65538, 2, 0}, {1, 0x40000000, 0x8000, 1},
         };
         for (int[] row : rows) {
@@ -301,10 +328,13 @@ public final class SummingEdgesTest {
 
     private static void quotients(Check check) {
         int[][] rows = { // D, DR, e, DR then, flags then (31 before)
-            {0, 100, 7, 0x0002000E, 16}, {0, 0xFFFEFFFF, 0xFFFF, 0xFFFEFFFF, 24}, {0, 3, 5, 0x00030000, 20}, {0, 0, 5, 0, 20},
+            {0, 100, 7, 0x0002000E, 16}, {0, 0xFFFEFFFF, 0xFFFF, 0xFFFEFFFF, 24}, {0, 3, 5, 0x00030000, 20},
+            {0, 0, 5, 0, 20},
             {0, 0xFFFF, 1, 0xFFFF, 24}, {0, 0x8000, 0x8000, 1, 16}, {0, 0x7FFF, 0x8000, 0x7FFF0000, 20},
-            {1, -100, 7, 0xFFFEFFF2, 24}, {1, 100, -7, 0x0002FFF2, 24}, {1, -100, -7, 0xFFFE000E, 16}, {1, -32768, 1, 0x8000, 24},
-            {1, 32768, -1, 0x8000, 24}, {1, -3, 5, 0xFFFD0000, 20}, {1, -1, 2, 0xFFFF0000, 20}, {1, 32767, 1, 0x7FFF, 16},
+            {1, -100, 7, 0xFFFEFFF2, 24}, {1, 100, -7, 0x0002FFF2, 24}, {1, -100, -7, 0xFFFE000E, 16},
+            {1, -32768, 1, 0x8000, 24},
+            {1, 32768, -1, 0x8000, 24}, {1, -3, 5, 0xFFFD0000, 20}, {1, -1, 2, 0xFFFF0000, 20},
+            {1, 32767, 1, 0x7FFF, 16},
             {1, -65537, 2, 0xFFFF8000, 24},
         };
         for (int[] row : rows) {
@@ -319,7 +349,8 @@ public final class SummingEdgesTest {
     private static void quick(Check check) {
         for (int r = 0; r < 8; r++) {
             int number = r == 0 ? 8 : r;
-            Rig rig = new Rig(Rig.op(9, r, 0, Rig.LONG, Rig.d(0)), Rig.op(9, r, 1, Rig.LONG, Rig.d(1))).with(0, -number).with(1, number);
+            Rig rig = new Rig(Rig.op(9, r, 0, Rig.LONG, Rig.d(0)), Rig.op(9, r, 1, Rig.LONG, Rig.d(1)))
+                    .with(0, -number).with(1, number);
             rig.step();
             check.equal("added " + number, 0, rig.get(0));
             check.equal("too large", Rig.X | Rig.Z | Rig.C, rig.flags());
@@ -373,7 +404,8 @@ public final class SummingEdgesTest {
 
     private static void setByCondition(Check check) {
         for (int k = 0; k < 2; k++) {
-            Rig rig = new Rig(Rig.op(9, 0, k, 3, Rig.d(0)), Rig.op(9, 0, k, 3, Rig.SHORT_PLACE), 4096).with(0, 0x12345678).flags(31);
+            Rig rig = new Rig(Rig.op(9, 0, k, 3, Rig.d(0)), Rig.op(9, 0, k, 3, Rig.SHORT_PLACE), 4096)
+                    .with(0, 0x12345678).flags(31);
             rig.m.type(1);
             rig.m.run(2);
             int due = k == 0 ? 255 : 0;

@@ -266,6 +266,9 @@ public final class InstructionEdgesTest {
         check.equal("HALTED, too", 2, rig.m.state());
         check.equal("registers as before the trace", Rig.handler(32), rig.pc());
         check.equal("counted", 1, rig.m.counted(32));
+        rig = new Rig(0x3700).with(15, 4100).with(Rig.STATUS, 0xA700);
+        check.equal("a call whose PC can be pushed, by saying it", 32, rig.step());
+        check.equal("it was said for the call and for the error, not for a trace", 2, rig.m.device(4));
         rig = new Rig(Rig.NOTHING).with(15, 1).with(Rig.STATUS, 0xA700);
         check.equal("the trace itself halts", 9, rig.step());
         check.equal("behind what was done", Rig.START + 2, rig.pc());

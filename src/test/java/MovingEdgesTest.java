@@ -106,27 +106,41 @@ public final class MovingEdgesTest {
         check.equal("no byte", 4, new Rig(Rig.move(Rig.BYTE, Rig.d(1), Rig.a(2))).step());
     }
 
-    /** Rows of: D0, flags before, D0 then, flags then. */
-    private static void single(Check check, int word, int[][] rows) {
+    /** Rows of: a D, flags before, the D then, flags then; in memory only its bytes of the size can be seen. */
+    private static void single(Check check, int code, int[][] rows) {
         for (int[] row : rows) {
-            Rig rig = new Rig(word).with(0, row[0]).flags(row[1]);
-            String what = Integer.toHexString(word) + " of " + Integer.toHexString(row[0]) + " with " + row[1];
-            check.equal(what, 0, rig.step());
-            check.equal(what + ": result", row[2], rig.get(0));
-            check.equal(what + ": flags", row[3], rig.flags());
+            String what = "c " + code + " of " + Integer.toHexString(row[0]) + " with " + row[1];
+            for (int r = 0; r < 8; r++) {
+                Rig rig = new Rig(Rig.three(code, Rig.d(r))).with(r, row[0]).flags(row[1]);
+                check.equal(what, 0, rig.step());
+                check.equal(what + ": result", row[2], rig.get(r));
+                check.equal(what + ": flags", row[3], rig.flags());
+            }
+            if (code < 20) {
+                int size = code == 15 || code == 19 ? Rig.BYTE : code % 4;
+                int shift = 32 - (8 << size);
+                int rest = size == Rig.LONG ? 0 : 0x55AA55AA & (1 << shift) - 1;
+                int before = row[0] << shift | rest;
+                Rig rig = new Rig(Rig.three(code, Rig.behind(3))).with(11, 0x700).flags(row[1]);
+                rig.write(0x700, before >>> 16, before & 0xFFFF);
+                check.equal(what + " in memory", 0, rig.step());
+                check.equal(what + " in memory: result", row[2] << shift | rest, rig.longAt(0x700));
+                check.equal(what + " in memory: flags", row[3], rig.flags());
+                check.equal(what + " in memory: found once", 0x700 + (1 << size), rig.get(11));
+            }
         }
     }
 
     private static void negatedInChain(Check check) {
-        single(check, Rig.three(0, Rig.d(0)), new int[][] {
+        single(check, 0, new int[][] {
             {0x1100, 4, 0x1100, 4}, {0x1100, 0, 0x1100, 0}, {0x1100, 20, 0x11FF, 25}, {0x80, 0, 0x80, 27},
             {0x80, 16, 0x7F, 17},
             {0xFF, 20, 0x00, 21}, {0xFF, 16, 0x00, 17}, {1, 31, 0xFE, 25}, {0x7F, 16, 0x80, 25},
         });
-        single(check, Rig.three(1, Rig.d(0)), new int[][] {
+        single(check, 1, new int[][] {
             {0x110000, 4, 0x110000, 4}, {0x8000, 0, 0x8000, 27}, {0x8000, 16, 0x7FFF, 17}, {0xFFFF, 20, 0, 21},
         });
-        single(check, Rig.three(2, Rig.d(0)), new int[][] {
+        single(check, 2, new int[][] {
             {0, 4, 0, 4}, {0, 16, -1, 25}, {0x80000000, 0, 0x80000000, 27}, {0x80000000, 16, 0x7FFFFFFF, 17},
             {-1, 20, 0, 21},
         });
@@ -135,7 +149,7 @@ public final class MovingEdgesTest {
     private static void becomesZero(Check check) {
         int[] due = {0xFFFFFF00, 0xFFFF0000, 0};
         for (int size = 0; size < 3; size++) {
-            single(check, Rig.three(4 + size, Rig.d(0)), new int[][] {{-1, 31, due[size], 20}, {0, 0, 0, 4}});
+            single(check, 4 + size, new int[][] {{-1, 31, due[size], 20}, {0, 0, 0, 4}});
         }
         Rig rig = new Rig(Rig.three(4, Rig.SHORT_PLACE), 4096);
         rig.m.type(1);
@@ -145,30 +159,30 @@ public final class MovingEdgesTest {
     }
 
     private static void negated(Check check) {
-        single(check, Rig.three(8, Rig.d(0)), new int[][] {
+        single(check, 8, new int[][] {
             {0x1100, 31, 0x1100, 4}, {1, 0, 0xFF, 25}, {0x7F, 0, 0x81, 25}, {0x80, 0, 0x80, 27}, {0xFF, 31, 1, 17},
         });
-        single(check, Rig.three(9, Rig.d(0)), new int[][] {
+        single(check, 9, new int[][] {
             {0x110000, 31, 0x110000, 4}, {0x7FFF, 0, 0x8001, 25}, {0x8000, 0, 0x8000, 27}, {0xFFFF, 16, 1, 17},
         });
-        single(check, Rig.three(10, Rig.d(0)), new int[][] {
+        single(check, 10, new int[][] {
             {0, 31, 0, 4}, {0x7FFFFFFF, 0, 0x80000001, 25}, {0x80000000, 0, 0x80000000, 27}, {-1, 0, 1, 17},
         });
     }
 
     private static void turned(Check check) {
-        single(check, Rig.three(12, Rig.d(0)), new int[][] {{0x11FF, 31, 0x1100, 20}, {0, 19, 0xFF, 24},
+        single(check, 12, new int[][] {{0x11FF, 31, 0x1100, 20}, {0, 19, 0xFF, 24},
             {0x80, 3, 0x7F, 0}});
-        single(check, Rig.three(13, Rig.d(0)), new int[][] {{0x11FFFF, 31, 0x110000, 20}, {0x7FFF, 3, 0x8000, 8}});
-        single(check, Rig.three(14, Rig.d(0)), new int[][] {{-1, 31, 0, 20}, {0, 3, -1, 8},
+        single(check, 13, new int[][] {{0x11FFFF, 31, 0x110000, 20}, {0x7FFF, 3, 0x8000, 8}});
+        single(check, 14, new int[][] {{-1, 31, 0, 20}, {0, 3, -1, 8},
             {0x80000000, 3, 0x7FFFFFFF, 0}});
     }
 
     private static void tested(Check check) {
-        single(check, Rig.three(16, Rig.d(0)), new int[][] {{0x1100, 31, 0x1100, 20}, {0x80, 3, 0x80, 8},
+        single(check, 16, new int[][] {{0x1100, 31, 0x1100, 20}, {0x80, 3, 0x80, 8},
             {0x7F, 31, 0x7F, 16}});
-        single(check, Rig.three(17, Rig.d(0)), new int[][] {{0x110000, 3, 0x110000, 4}, {0x8000, 3, 0x8000, 8}});
-        single(check, Rig.three(18, Rig.d(0)), new int[][] {{0, 3, 0, 4}, {0x80000000, 3, 0x80000000, 8}});
+        single(check, 17, new int[][] {{0x110000, 3, 0x110000, 4}, {0x8000, 3, 0x8000, 8}});
+        single(check, 18, new int[][] {{0, 3, 0, 4}, {0x80000000, 3, 0x80000000, 8}});
         Rig rig = new Rig(Rig.three(17, Rig.SHORT_PLACE), 0x10);
         rig.m.fence(2048);
         check.equal("nothing is written", 0, rig.step());
@@ -217,12 +231,12 @@ public final class MovingEdgesTest {
             {0x99, 16, 0x00, 17},
             {0x99, 20, 0x00, 21}, {0x10, 0, 0x90, 25}, {0x50, 2, 0x50, 17}};
         for (int[] row : rows) {
-            single(check, Rig.three(15, Rig.d(0)), new int[][] {{0x1100 | row[0], row[1], 0x1100 | row[2], row[3]}});
+            single(check, 15, new int[][] {{0x1100 | row[0], row[1], 0x1100 | row[2], row[3]}});
         }
     }
 
     private static void testedAndSet(Check check) {
-        single(check, Rig.three(19, Rig.d(0)), new int[][] {
+        single(check, 19, new int[][] {
             {0x1100, 31, 0x1180, 20}, {0x7F, 31, 0xFF, 16}, {0x80, 3, 0x80, 8}, {0xFF, 3, 0xFF, 8},
         });
         Rig rig = new Rig(Rig.three(19, Rig.behind(0))).with(8, 0x701).write(0x700, 0xFF01, 0xFFFF);
@@ -232,7 +246,7 @@ public final class MovingEdgesTest {
     }
 
     private static void wordsChangePlaces(Check check) {
-        single(check, Rig.three(20, Rig.d(0)), new int[][] {
+        single(check, 20, new int[][] {
             {0x12348000, 19, 0x80001234, 24}, {0x80000001, 3, 0x00018000, 0}, {0, 31, 0, 20},
             {0x0000FFFF, 0, 0xFFFF0000, 8},
             {0xFFFF0000, 31, 0x0000FFFF, 16},
@@ -250,11 +264,11 @@ public final class MovingEdgesTest {
     }
 
     private static void extended(Check check) {
-        single(check, Rig.three(21, Rig.d(0)), new int[][] {
+        single(check, 21, new int[][] {
             {0x1234567F, 31, 0x1234007F, 16}, {0x12345680, 3, 0x1234FF80, 8}, {0x1234FF00, 3, 0x12340000, 4},
             {0xFF, 0, 0xFFFF, 8},
         });
-        single(check, Rig.three(22, Rig.d(0)), new int[][] {
+        single(check, 22, new int[][] {
             {0x12347FFF, 31, 0x7FFF, 16}, {0x12348000, 3, 0xFFFF8000, 8}, {0xFFFF0000, 3, 0, 4}, {0xFFFF, 0, -1, 8},
         });
     }

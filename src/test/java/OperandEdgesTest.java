@@ -311,6 +311,10 @@ public final class OperandEdgesTest {
         kind(check, "a bit asked by a number", Rig.op(12, 4, 0, 0, 0), 0, "x-xxxxxxxxx-");
         kind(check, "a bit turned by a number", Rig.op(12, 4, 0, 1, 0), 0, "x-xxxxxxx---");
         kind(check, "the STATUS moved", Rig.three(3, 0), 0, "x-xxxxxxx---");
+        kind(check, "^, or compared", Rig.op(6, 0, 1, 1, 0), 0, "xxxxxxxxx---");
+        kind(check, "set by a condition, or counted down", Rig.op(9, 0, 0, 3, 0), 0, "xxxxxxxxx---");
+        kind(check, "0 - e IN TENS", Rig.three(15, 0), 0, "x-xxxxxxx---");
+        kind(check, "tested and set", Rig.three(19, 0), 0, "x-xxxxxxx---");
         kind(check, "STORE MANY, or EXTENDED", Rig.three(21, 0), 0, "x-x-xxxxx---");
         kind(check, "LOAD MANY", Rig.three(24, 0), 0, "--xx-xxxxxx-");
     }

@@ -35,6 +35,11 @@ public final class PortTest {
             rig.step();
             check.equal("read of " + row[0], 0x1200 | row[1], rig.get(0));
         }
+        for (int b : new int[] {0x37, 0x137, 0x7FFFFF37, 0xFFFFFF37}) {
+            Rig instruction = new Rig().with(Rig.PC, 4096);
+            instruction.m.type(b);
+            check.equal("as half of an instruction", 32, instruction.step());
+        }
     }
 
     private static void behindTheOthers(Check check) {

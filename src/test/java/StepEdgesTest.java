@@ -154,7 +154,9 @@ public final class StepEdgesTest {
         check.equal("the PC behind STOP is pushed", Rig.START + 4, rig.longAt(Rig.STACK - 4));
         check.equal("with the STATUS of STOP", 0x2300, rig.word(Rig.STACK - 6));
         rig.m.level(0);
-        check.equal("it goes on", 4, rig.write(Rig.handler(28), 0x3FFF).step());
+        check.equal("it goes on", 0, rig.write(Rig.handler(28), Rig.NOTHING, 0x3FFF).step());
+        check.equal("and is not STOPPED again", 0, rig.m.state());
+        check.equal("so it goes on still", 4, rig.step());
         Rig user = new Rig(Rig.STOP, 0x0000).with(Rig.OTHER, Rig.USER_STACK);
         user.step();
         user.m.level(1);

@@ -21,6 +21,15 @@ public final class StepTest {
         check.equal("nothing but the PC", 0, rig.step());
         check.equal("PC", Rig.START + 2, rig.pc());
         check.equal("to stop is an instruction, too", 0, rig.step());
+        int[][] exceptions = {{0x3700, 32}, {0x3FFF, 4}, {0xA000, 10}, {Rig.op(8, 0, 0, 3, Rig.d(1)), 5}};
+        for (int[] row : exceptions) {
+            Rig behind = new Rig(row[0]).write(Rig.handler(row[1]), Rig.NOTHING);
+            check.equal("an exception", row[1], behind.step());
+            check.equal("none in the instruction behind it", 0, behind.step());
+        }
+        Rig error = new Rig().with(Rig.PC, 3000).write(Rig.handler(2), Rig.NOTHING);
+        check.equal("an error", 2, error.step());
+        check.equal("none in the instruction behind it, either", 0, error.step());
     }
 
     private static void nothingDone(Check check) {

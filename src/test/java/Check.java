@@ -20,6 +20,9 @@ final class Check {
     void sentence(String promise, String words, Consumer<Check> test) {
         heading = promise + " \"" + words + "\": ";
         int before = answers;
+        if (!Document.says(words)) {
+            tell("the document does not say so");
+        }
         try {
             test.accept(this);
         } catch (RuntimeException e) {
